@@ -244,7 +244,7 @@ public final class SealKeeper {
         }
 
         int at(int i) {
-            return i >= 0 && i < size && i < cells.length ? cells[i] : NONE;
+            return i >= 0 && i < size ? cells[i] : NONE;
         }
 
         void cutTo(int n) {
@@ -261,15 +261,13 @@ public final class SealKeeper {
         }
 
         int of(int owner, int kind) {
-            int i = owner * KINDS + kind;
-            return within(owner, OWNERS) && within(kind, KINDS) && i < levels.length ? levels[i] : NONE;
+            return within(owner, OWNERS) && within(kind, KINDS) ? levels[owner * KINDS + kind] : NONE;
         }
 
         int replace(int owner, int kind, int level) {
             int before = of(owner, kind);
-            int i = owner * KINDS + kind;
-            if (within(i, levels.length)) {
-                levels[i] = level;
+            if (within(owner, OWNERS) && within(kind, KINDS)) {
+                levels[owner * KINDS + kind] = level;
             }
             return before;
         }
@@ -288,8 +286,6 @@ public final class SealKeeper {
         final int[] owner = new int[MOST_METHODS];
         /** The first STEP of a METHOD's block, NONE for an empty one. */
         final int[] start = new int[MOST_METHODS];
-        /** The METHODS that a METHOD calls, a bit each. */
-        final int[] callees = new int[MOST_METHODS];
         final int[] word = new int[MOST_STEPS];
         final int[] method = new int[MOST_STEPS];
         final int[] first = new int[MOST_STEPS];
@@ -316,7 +312,6 @@ public final class SealKeeper {
             }
             owner[m] = itsOwner;
             start[m] = NONE;
-            callees[m] = 0;
             methods++;
             return m;
         }
@@ -335,18 +330,6 @@ public final class SealKeeper {
             other[s] = NONE;
             steps++;
             return s;
-        }
-
-        void noteCallees() {
-            for (int s = 0; s < steps; s++) {
-                if (word[s] == CALL && within(method[s], MOST_METHODS) && within(first[s], MOST_METHODS)) {
-                    callees[method[s]] |= 1 << first[s];
-                }
-            }
-        }
-
-        boolean calls(int caller, int callee) {
-            return within(caller, methods) && (callees[caller] >>> callee & 1) == 1;
         }
 
         int ownerOf(int m) {
@@ -658,7 +641,6 @@ public final class SealKeeper {
                     return false;
                 }
             }
-            into.noteCallees();
             return true;
         }
     }
@@ -861,7 +843,7 @@ public final class SealKeeper {
 
         private void beginJob() {
             int job = tally[JOBS];
-            if (!within(job, jobs) || job >= jobMethod.length || job >= jobBase.length) {
+            if (!within(job, jobs)) {
                 end = DONE;
                 return;
             }
@@ -871,7 +853,7 @@ public final class SealKeeper {
         }
 
         private void putOff(int method, int base) {
-            if (within(jobs, jobMethod.length) && jobs < jobBase.length) {
+            if (within(jobs, MOST_PUT_OFF + 1)) {
                 jobMethod[jobs] = method;
                 jobBase[jobs] = base;
                 jobs++;
@@ -968,7 +950,7 @@ public final class SealKeeper {
         }
 
         private void repeat(int s, int times, int stack) {
-            // Rounds without TURNS would make the run longer than its TURNS.
+            // Rounds of an empty block have no TURNS that could bound them.
             if (times > 0 && program.inner[s] != NONE) {
                 frames.push(Frames.REPEATED, s, program.inner[s], stack);
                 frames.setTimesLeft(times - 1);
@@ -1015,6 +997,8 @@ public final class SealKeeper {
     private static final class Foresight {
         static final int END = 1, FAIL = 2, GO_BACK = 4;
         private static final long ALL_LEVELS = 0xFFFFFFFFFFL, ONE_EACH = 0x1111111111L;
+        /** How many longs hold a bit for each PAIR. */
+        private static final int PAIR_BITS = (MOST_PAIRS + 63) >> 6;
 
         private final Rules rules;
         private Program program;
@@ -1024,6 +1008,8 @@ public final class SealKeeper {
         private final int[] can = new int[MOST_PAIRS];
         /** Whether a PAIR is to be walked anew, since something that it calls can more than before. */
         private final boolean[] stale = new boolean[MOST_PAIRS];
+        /** For each PAIR those that call it, a bit each. */
+        private final long[] callers = new long[MOST_PAIRS * PAIR_BITS];
         /** The PAIRS by their METHODS, and then by their rights. */
         private final int[] order = new int[MOST_PAIRS];
         private final int[] pairsOf = new int[MOST_METHODS];
@@ -1032,6 +1018,7 @@ public final class SealKeeper {
         final int[] passed = new int[MOST_STEPS];
         final int[] open = new int[MOST_STEPS];
         private int size;
+        private int walking;
         private boolean tooMany;
         boolean kept;
 
@@ -1060,15 +1047,16 @@ public final class SealKeeper {
         /** Whether there was a PAIR to walk. From the latest PAIR on, since those mostly are called by earlier ones. */
         private boolean sweep() {
             boolean any = false;
-            for (int p = size - 1; p >= 0 && p < MOST_PAIRS && !tooMany; p--) {
+            for (int p = size - 1; p >= 0 && !tooMany; p--) {
                 if (stale[p]) {
                     any = true;
                     stale[p] = false;
+                    walking = p;
                     System.arraycopy(rights, p * KINDS, work, 0, KINDS);
                     int before = can[p];
                     can[p] |= walkBlock(program.startOf(method[p]), 0);
                     if (can[p] != before) {
-                        makeCallersStale(method[p]);
+                        makeCallersStale(p);
                     }
                 }
             }
@@ -1076,8 +1064,12 @@ public final class SealKeeper {
         }
 
         private void makeCallersStale(int callee) {
-            for (int p = 0; p < size && p < MOST_PAIRS; p++) {
-                stale[p] |= program.calls(method[p], callee);
+            if (!within(callee, MOST_PAIRS)) {
+                return;
+            }
+            for (int p = 0; p < size; p++) {
+                long bits = callers[callee * PAIR_BITS + (p >> 6)];
+                stale[p] |= (bits >>> (p & 63) & 1L) == 1L;
             }
         }
 
@@ -1098,7 +1090,7 @@ public final class SealKeeper {
             passed[s] = 1;
             switch (program.word[s]) {
                 case ASK: return walkAsk(s, depth);
-                case CALL: return canAfterCall(come(program.first[s], depth));
+                case CALL: return walkCall(come(program.first[s], depth));
                 case LEND:
                 case CUT:
                     copyDown(depth);
@@ -1131,9 +1123,12 @@ public final class SealKeeper {
             return walkBlock(firstStep, depth + 1);
         }
 
-        private int canAfterCall(int p) {
-            int callee = within(p, MOST_PAIRS) ? can[p] : 0;
-            return (callee & FAIL) | ((callee & (END | GO_BACK)) == 0 ? 0 : END);
+        private int walkCall(int callee) {
+            if (!within(callee, MOST_PAIRS) || !within(walking, MOST_PAIRS)) {
+                return 0;
+            }
+            callers[callee * PAIR_BITS + (walking >> 6)] |= 1L << (walking & 63);
+            return can[callee] & FAIL | ((can[callee] & (END | GO_BACK)) == 0 ? 0 : END);
         }
 
         private int refuserOf(int s, int depth) {
@@ -1196,7 +1191,7 @@ public final class SealKeeper {
 
         private int placeInOrder(int m, int depth) {
             int low = 0;
-            int high = Math.min(size, MOST_PAIRS);
+            int high = size;
             for (int i = 0; i < MOST_PAIRS && low < high; i++) {
                 int middle = (low + high) >>> 1;
                 if (compare(order[middle], m, depth) < 0) {
@@ -1238,6 +1233,7 @@ public final class SealKeeper {
             method[p] = m;
             can[p] = 0;
             stale[p] = true;
+            Arrays.fill(callers, p * PAIR_BITS, (p + 1) * PAIR_BITS, 0L);
             pairsOf[m]++;
             size++;
             return p;
