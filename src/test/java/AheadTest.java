@@ -221,6 +221,13 @@ public final class AheadTest {
         }
         Checks.due("no seventh", x.pair(2, 6, 0, 5), SealKeeper.NONE);
         Checks.due("far behind", x.pair(2, Integer.MAX_VALUE, 0, 5), SealKeeper.NONE);
+        String thrice = "cut 1 { call 1; } cut 2 { call 1; } call 1; ";
+        x = generous("on 0 { " + thrice.repeat(3) + "} on 1 { }");
+        x.rule(1, 0, 3);
+        Checks.due("the same pairs come again", x.ahead(0), 4);
+        Checks.due("the first", x.pair(1, 0, 2, 0), SealKeeper.NONE);
+        Checks.due("the second", x.pair(1, 1, 2, 0), 0);
+        Checks.due("the third", x.pair(1, 2, 1, 0), 0);
         x = generous("on 0 { lend 1 4 { call 3; } call 3; } on 1 { call 0; } on 2 { call 1; } on 3 { }");
         x.rule(1, 1, 2);
         x.rule(2, 1, 6);

@@ -288,6 +288,9 @@ public final class ProgramsTest {
             Checks.due("about(3)", x.about(3), 1);
             Checks.due("step(0, 3)", x.step(0, 3), SealKeeper.NONE);
             Checks.due("step(1, 0)", x.step(1, 0), SealKeeper.OUTSIDE);
+            Checks.due("an empty one", Checks.read(x, "on 2 { }"), 1);
+            Checks.due("about(1)", x.about(1), 0);
+            Checks.due("about(3)", x.about(3), 1);
         }
     }
 
