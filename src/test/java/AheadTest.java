@@ -20,16 +20,6 @@ public final class AheadTest {
         Checks.end();
     }
 
-    private static SealKeeper generous(String text) {
-        SealKeeper x = Checks.keeper(text);
-        for (int owner = 0; owner < 8; owner++) {
-            for (int kind = 0; kind < 8; kind++) {
-                x.rule(owner, kind, 9);
-            }
-        }
-        return x;
-    }
-
     /** What told(0) .. told(4) answer. */
     private static void dueTold(SealKeeper x, String what, int... told) {
         for (int i = 0; i < told.length; i++) {
@@ -61,7 +51,7 @@ public final class AheadTest {
     }
 
     private static void calls() {
-        SealKeeper x = generous("on 0 { call 1; call 2; say 1; } on 1 { ask 3 3; } on 2 { ask 4 4; back; } on 3 { }");
+        SealKeeper x = Checks.generous("on 0 { call 1; call 2; say 1; } on 1 { ask 3 3; } on 2 { ask 4 4; back; } on 3 { }");
         Checks.due("ahead(0)", x.ahead(0), 3);
         dueTold(x, "calls", 1, 0, 6, 0, 3);
         x.rule(1, 4, 0);
@@ -79,7 +69,7 @@ public final class AheadTest {
     }
 
     private static void recursionThatCanNotEnd() {
-        SealKeeper x = generous("on 0 { say 1; call 0; say 2; } on 1 { call 2; say 3; } on 2 { call 1; }");
+        SealKeeper x = Checks.generous("on 0 { say 1; call 0; say 2; } on 1 { call 2; say 3; } on 2 { call 1; }");
         Checks.due("ahead(0)", x.ahead(0), 1);
         dueTold(x, "for ever", 0, 0, 2, 0, 1);
         dueWalked(x, "for ever", "110000");
@@ -92,7 +82,7 @@ public final class AheadTest {
     }
 
     private static void recursionThatCanEnd() {
-        SealKeeper x = generous("on 0 { either { call 0; say 1; } or { ask 1 1; } } on 1 { cut 1 { call 0; } }");
+        SealKeeper x = Checks.generous("on 0 { either { call 0; say 1; } or { ask 1 1; } } on 1 { cut 1 { call 0; } }");
         Checks.due("ahead(0)", x.ahead(0), 1);
         dueTold(x, "it ends", 1, 0, 4, 0, 1);
         Checks.due("ahead(1)", x.ahead(1), 2);
@@ -102,7 +92,7 @@ public final class AheadTest {
 
     private static void lendsAndCuts() {
         String text = "on 0 { call 1; } on 1 { lend 2 5 { ask 2 5; ask 2 6; } }";
-        SealKeeper x = generous(text);
+        SealKeeper x = Checks.generous(text);
         x.rule(0, 2, 2);
         Checks.due("ahead(0)", x.ahead(0), 2);
         dueWalked(x, "lent up to 5", "1112");
@@ -110,20 +100,20 @@ public final class AheadTest {
         x.rule(1, 2, 4);
         x.ahead(0);
         dueWalked(x, "who lends lacks it", "1120");
-        x = generous("on 0 { cut 3 { call 1; } call 1; } on 1 { say 1; } ");
+        x = Checks.generous("on 0 { cut 3 { call 1; } call 1; } on 1 { say 1; } ");
         Checks.due("ahead(0)", x.ahead(0), 3);
         Checks.due("not cut", x.pair(1, 0, 3, 0), SealKeeper.NONE);
         Checks.due("cut", x.pair(1, 1, 3, 0), 0);
         Checks.due("cut", x.pair(1, 1, 3, 9), 0);
         Checks.due("another kind", x.pair(1, 1, 4, 9), SealKeeper.NONE);
         Checks.due("no third", x.pair(1, 2, 3, 0), SealKeeper.NONE);
-        x = generous("on 2 { cut 3 { lend 3 4 { call 1; } } } on 1 { }");
+        x = Checks.generous("on 2 { cut 3 { lend 3 4 { call 1; } } } on 1 { }");
         x.rule(2, 3, 1);
         x.ahead(0);
         Checks.due("lent and had", x.pair(1, 0, 3, 1), SealKeeper.NONE);
         Checks.due("lent and lacked", x.pair(1, 0, 3, 4), 2);
         Checks.due("not lent", x.pair(1, 0, 3, 5), 2);
-        x = generous("on 2 { lend 3 4 { cut 3 { lend 3 0 { ask 3 0; ask 3 1; } } } }");
+        x = Checks.generous("on 2 { lend 3 4 { cut 3 { lend 3 0 { ask 3 0; ask 3 1; } } } }");
         x.ahead(0);
         dueWalked(x, "within one another", "11112");
     }
@@ -194,14 +184,14 @@ public final class AheadTest {
         for (int m = 0; m < 19; m++) {
             chain.append("on 0{call ").append(m + 1).append(";call ").append((m + 7) % 20).append(";}");
         }
-        SealKeeper x = generous(chain + "on 0{}");
+        SealKeeper x = Checks.generous(chain + "on 0{}");
         Checks.due("ahead(0)", x.ahead(0), 20);
         dueTold(x, "each waits for another one", 0, 0, 20, 0, 20);
         StringBuilder straight = new StringBuilder();
         for (int m = 0; m < 19; m++) {
             straight.append("on 0{call ").append(m + 1).append(";say 1;}");
         }
-        x = generous(straight + "on 0{ask 0 0;}");
+        x = Checks.generous(straight + "on 0{ask 0 0;}");
         Checks.due("ahead(0)", x.ahead(0), 20);
         dueTold(x, "all of it", 1, 0, 39, 0, 20);
         x.rule(0, 0, -1);
@@ -210,7 +200,7 @@ public final class AheadTest {
     }
 
     private static void pairsInTheirOrder() {
-        SealKeeper x = generous("on 0 { cut 1 { call 2; } call 1; cut 0 { call 2; } call 2; } on 1 { cut 1 { call 2; }"
+        SealKeeper x = Checks.generous("on 0 { cut 1 { call 2; } call 1; cut 0 { call 2; } call 2; } on 1 { cut 1 { call 2; }"
                 + " cut 0 { call 2; } lend 0 9 { cut 7 { call 2; } } } on 2 { }");
         Checks.due("ahead(0)", x.ahead(0), 8);
         int[][] due = {{-1, -1, -1}, {-1, -1, 1}, {-1, 0, -1}, {-1, 1, -1}, {0, -1, -1}, {1, -1, -1}};
@@ -222,13 +212,13 @@ public final class AheadTest {
         Checks.due("no seventh", x.pair(2, 6, 0, 5), SealKeeper.NONE);
         Checks.due("far behind", x.pair(2, Integer.MAX_VALUE, 0, 5), SealKeeper.NONE);
         String thrice = "cut 1 { call 1; } cut 2 { call 1; } call 1; ";
-        x = generous("on 0 { " + thrice.repeat(3) + "} on 1 { }");
+        x = Checks.generous("on 0 { " + thrice.repeat(3) + "} on 1 { }");
         x.rule(1, 0, 3);
         Checks.due("the same pairs come again", x.ahead(0), 4);
         Checks.due("the first", x.pair(1, 0, 2, 0), SealKeeper.NONE);
         Checks.due("the second", x.pair(1, 1, 2, 0), 0);
         Checks.due("the third", x.pair(1, 2, 1, 0), 0);
-        x = generous("on 0 { lend 1 4 { call 3; } call 3; } on 1 { call 0; } on 2 { call 1; } on 3 { }");
+        x = Checks.generous("on 0 { lend 1 4 { call 3; } call 3; } on 1 { call 0; } on 2 { call 1; } on 3 { }");
         x.rule(1, 1, 2);
         x.rule(2, 1, 6);
         Checks.due("ahead(2)", x.ahead(2), 5);
@@ -257,7 +247,7 @@ public final class AheadTest {
     }
 
     private static void pairsUpToTheirEdge() {
-        SealKeeper x = generous(crowd(3, 5, 6));
+        SealKeeper x = Checks.generous(crowd(3, 5, 6));
         Checks.due("256 + 32 + 8 + 4", x.ahead(0), 300);
         dueTold(x, "300", 1, 0, x.about(1), 0, 4);
         Checks.due("the first", x.pair(0, 0, 0, 0), SealKeeper.NONE);
@@ -268,7 +258,7 @@ public final class AheadTest {
             Checks.due("the last of all", x.pair(3, 3, kind, 3), kind < 6 ? SealKeeper.NONE : 0);
         }
         Checks.due("no 257th", x.pair(0, 256, 0, 0), SealKeeper.NONE);
-        x = generous(crowd(3, 5, 6, 8));
+        x = Checks.generous(crowd(3, 5, 6, 8));
         Checks.due("301", x.ahead(0), SealKeeper.MANY);
         Checks.due("nothing is kept", x.told(0), SealKeeper.STATE);
         Checks.due("ahead(1)", x.ahead(1), 1);
@@ -284,7 +274,7 @@ public final class AheadTest {
     }
 
     private static void callsInTheTwelfthBlock() {
-        SealKeeper x = generous("on 0 { " + "cut 5 {".repeat(6) + "loop 1 {".repeat(4) + "cut 6 { call 1; call 1; ask 4 4; ask 6 6; "
+        SealKeeper x = Checks.generous("on 0 { " + "cut 5 {".repeat(6) + "loop 1 {".repeat(4) + "cut 6 { call 1; call 1; ask 4 4; ask 6 6; "
                 + "}".repeat(11) + " } on 1 { if 6 6 { say 1; } else { say 2; } call 2; } on 2 { ask 4 4; }");
         x.rule(1, 3, 4);
         Checks.due("ahead(0)", x.ahead(0), 3);
@@ -298,7 +288,7 @@ public final class AheadTest {
     }
 
     private static void whatIsKept() {
-        SealKeeper x = generous("on 0 { ask 1 1; } on 0 { say 1; }");
+        SealKeeper x = Checks.generous("on 0 { ask 1 1; } on 0 { say 1; }");
         x.ahead(0);
         x.rule(0, 1, -1);
         x.bits(1, 1);

@@ -30,23 +30,12 @@ public final class RunsTest {
         Checks.end();
     }
 
-    /** All owners have all rights but those that a test takes away. */
-    private static SealKeeper generous(String text) {
-        SealKeeper x = Checks.keeper(text);
-        for (int owner = 0; owner < 8; owner++) {
-            for (int kind = 0; kind < 8; kind++) {
-                x.rule(owner, kind, 9);
-            }
-        }
-        return x;
-    }
-
     private static void dueRun(SealKeeper x, String what, int method, int turns, int end) {
         Checks.due(what + ": run(" + method + ", " + turns + ")", x.run(method, turns), end);
     }
 
     private static void allOnTheStackJudge() {
-        SealKeeper x = generous("on 1 { call 1; } on 2 { call 2; } on 3 { ask 4 5; say 1; }");
+        SealKeeper x = Checks.generous("on 1 { call 1; } on 2 { call 2; } on 3 { ask 4 5; say 1; }");
         dueRun(x, "all have it", 0, 99, 0);
         Checks.dueNotes(x, "all have it", 1);
         x.rule(2, 4, 5);
@@ -68,7 +57,7 @@ public final class RunsTest {
     }
 
     private static void lending() {
-        SealKeeper x = generous("on 0 { call 1; } on 1 { lend 2 6 { call 2; } call 2; } on 2 { ask 2 6; say 7; }");
+        SealKeeper x = Checks.generous("on 0 { call 1; } on 1 { lend 2 6 { call 2; } call 2; } on 2 { ask 2 6; say 7; }");
         x.rule(0, 2, -1);
         dueRun(x, "lent", 0, 99, 0);
         Checks.dueNotes(x, "lent within its block alone", 7, 11004);
@@ -83,57 +72,57 @@ public final class RunsTest {
 
     private static void lendingOfLessOrOther() {
         String low = "on 0 { call 1; } on 1 { lend 2 5 { ask 2 6; } }";
-        SealKeeper x = generous(low);
+        SealKeeper x = Checks.generous(low);
         x.rule(0, 2, -1);
         dueRun(x, "a level above", 0, 99, 0);
         Checks.dueNotes(x, "a level above", 11002);
-        x = generous(low.replace("ask 2 6", "ask 2 5"));
+        x = Checks.generous(low.replace("ask 2 6", "ask 2 5"));
         x.rule(0, 2, -1);
         dueRun(x, "the same level", 0, 99, 0);
         Checks.dueNotes(x, "the same level");
-        x = generous(low.replace("ask 2 6", "ask 3 5"));
+        x = Checks.generous(low.replace("ask 2 6", "ask 3 5"));
         x.rule(0, 3, -1);
         dueRun(x, "another kind", 0, 99, 0);
         Checks.dueNotes(x, "another kind", 11002);
-        x = generous("on 0 { lend 2 5 { lend 2 3 { ask 2 4; say 1; cut 2 { ask 2 0; } } } }");
+        x = Checks.generous("on 0 { lend 2 5 { lend 2 3 { ask 2 4; say 1; cut 2 { ask 2 0; } } } }");
         dueRun(x, "the lower one is looked at, too", 0, 99, 0);
         Checks.dueNotes(x, "the lower one is looked at, too", 1, 11005);
     }
 
     private static void cutting() {
-        SealKeeper x = generous("on 5 { cut 1 { ask 0 9; call 1; } } on 6 { say 3; ask 1 0; }");
+        SealKeeper x = Checks.generous("on 5 { cut 1 { ask 0 9; call 1; } } on 6 { say 3; ask 1 0; }");
         dueRun(x, "cut", 0, 99, 0);
         Checks.dueNotes(x, "its owner is told", 3, 16004);
-        x = generous("on 5 { cut 1 { lend 1 3 { ask 1 3; say 1; } ask 1 0; } }");
+        x = Checks.generous("on 5 { cut 1 { lend 1 3 { ask 1 3; say 1; } ask 1 0; } }");
         dueRun(x, "lent anew", 0, 99, 0);
         Checks.dueNotes(x, "lent anew", 1, 16004);
-        x = generous("on 5 { cut 1 { } ask 1 9; say 2; }");
+        x = Checks.generous("on 5 { cut 1 { } ask 1 9; say 2; }");
         dueRun(x, "behind its block", 0, 99, 0);
         Checks.dueNotes(x, "behind its block", 2);
     }
 
     private static void keepingAndUnder() {
-        SealKeeper x = generous("on 0 { call 1; call 2; } on 1 { keep 0; } on 2 { ask 3 1; under 0 { ask 3 1; } }");
+        SealKeeper x = Checks.generous("on 0 { call 1; call 2; } on 1 { keep 0; } on 2 { ask 3 1; under 0 { ask 3 1; } }");
         dueRun(x, "all have it", 0, 99, 0);
         Checks.dueNotes(x, "all have it");
         x.rule(1, 3, 0);
         dueRun(x, "who has kept is asked, too", 0, 99, 0);
         Checks.dueNotes(x, "who has kept is asked, too", 12005);
-        x = generous("on 0 { lend 3 9 { keep 1; } call 1; } on 1 { under 1 { call 2; } } on 2 { ask 3 2; say 4; }");
+        x = Checks.generous("on 0 { lend 3 9 { keep 1; } call 1; } on 1 { under 1 { call 2; } } on 2 { ask 3 2; say 4; }");
         x.rule(1, 3, 2);
         dueRun(x, "with what was lent then", 0, 99, 0);
         Checks.dueNotes(x, "with what was lent then", 4);
-        x = generous("on 0 { keep 2; cut 3 { under 2 { ask 3 9; say 1; } under 2 { } ask 3 0; } }");
+        x = Checks.generous("on 0 { keep 2; cut 3 { under 2 { ask 3 9; say 1; } under 2 { } ask 3 0; } }");
         dueRun(x, "instead of what is below", 0, 99, 0);
         Checks.dueNotes(x, "instead of what is below", 1, 11006);
     }
 
     private static void underIsTheOwnersToo() {
-        SealKeeper x = generous("on 0 { keep 3; call 1; } on 1 { under 3 { call 2; } } on 2 { ask 6 6; say 1; }");
+        SealKeeper x = Checks.generous("on 0 { keep 3; call 1; } on 1 { under 3 { call 2; } } on 2 { ask 6 6; say 1; }");
         x.rule(1, 6, 5);
         dueRun(x, "its owner lacks it", 0, 99, 0);
         Checks.dueNotes(x, "its owner lacks it", 12004);
-        x = generous("on 4 { cut 6 { keep 3; } call 1; } on 1 { under 3 { ask 6 0; } }");
+        x = Checks.generous("on 4 { cut 6 { keep 3; } call 1; } on 1 { under 3 { ask 6 0; } }");
         x.rule(1, 6, -1);
         dueRun(x, "its owner first", 0, 99, 0);
         Checks.dueNotes(x, "its owner first", 12004);
@@ -143,25 +132,25 @@ public final class RunsTest {
     }
 
     private static void underKeepsWhatItBeganWith() {
-        SealKeeper x = generous("on 0 { keep 0; under 0 { keep 0; ask 1 1; under 0 { cut 1 { keep 0; } ask 1 1; say 1; } }"
+        SealKeeper x = Checks.generous("on 0 { keep 0; under 0 { keep 0; ask 1 1; under 0 { cut 1 { keep 0; } ask 1 1; say 1; } }"
                 + " under 0 { ask 1 1; } }");
         dueRun(x, "keep within under", 0, 99, 0);
         Checks.dueNotes(x, "keep within under", 1, 11010);
     }
 
     private static void underOfAnEmptySlot() {
-        SealKeeper x = generous("on 0 { keep 0; try { under 1 { say 1; } } else { say 2; } under 3 { } say 3; }");
+        SealKeeper x = Checks.generous("on 0 { keep 0; try { under 1 { say 1; } } else { say 2; } under 3 { } say 3; }");
         dueRun(x, "an empty slot", 0, 99, 0);
         Checks.dueNotes(x, "an empty slot", 10002, 2, 10005);
         Checks.dueRan(x, "an empty slot", 5, 1, 2, 1, 1, 0, 3, 0);
     }
 
     private static void laterHasABase() {
-        SealKeeper x = generous("on 1 { cut 2 { later 1; } later 1; say 9; } on 2 { say 1; ask 2 2; say 2; }");
+        SealKeeper x = Checks.generous("on 1 { cut 2 { later 1; } later 1; say 9; } on 2 { say 1; ask 2 2; say 2; }");
         dueRun(x, "later", 0, 99, 0);
         Checks.dueNotes(x, "behind the job that put it off", 9, 1, 12005, 1, 2);
         Checks.dueRan(x, "later", 9, 3, 1, 1, 1, 0, 5, 2);
-        x = generous("on 1 { later 1; } on 2 { call 2; } on 3 { keep 0; lend 4 4 { later 3; } ask 4 4; }"
+        x = Checks.generous("on 1 { later 1; } on 2 { call 2; } on 3 { keep 0; lend 4 4 { later 3; } ask 4 4; }"
                 + "on 4 { ask 4 4; say 8; ask 4 5; }");
         x.rule(1, 4, 0);
         dueRun(x, "a base on a base", 0, 99, 0);
@@ -170,11 +159,11 @@ public final class RunsTest {
     }
 
     private static void laterInItsOrder() {
-        SealKeeper x = generous("on 0 { later 1; later 2; say 0; } on 0 { say 1; later 3; } on 0 { say 2; } on 0 { say 3; }");
+        SealKeeper x = Checks.generous("on 0 { later 1; later 2; say 0; } on 0 { say 1; later 3; } on 0 { say 2; } on 0 { say 3; }");
         dueRun(x, "in their order", 0, 99, 0);
         Checks.dueNotes(x, "in their order", 0, 1, 2, 3);
         Checks.due("ran(1)", x.ran(1), 4);
-        x = generous("on 0 { later 1; ask 0 0; } on 0 { say 1; }");
+        x = Checks.generous("on 0 { later 1; ask 0 0; } on 0 { say 1; }");
         x.rule(0, 0, -1);
         dueRun(x, "a failure ends its job alone", 0, 99, 0);
         Checks.dueNotes(x, "a failure ends its job alone", 11001, 1);
@@ -182,7 +171,7 @@ public final class RunsTest {
     }
 
     private static void slotsLastForARun() {
-        SealKeeper x = generous("on 0 { later 1; keep 2; } on 0 { under 2 { say 1; } }");
+        SealKeeper x = Checks.generous("on 0 { later 1; keep 2; } on 0 { under 2 { say 1; } }");
         dueRun(x, "in a later job", 0, 99, 0);
         Checks.dueNotes(x, "in a later job", 1);
         dueRun(x, "in the next run", 1, 99, 0);
@@ -201,7 +190,7 @@ public final class RunsTest {
     }
 
     private static void tryEndsWhatWasOpen() {
-        SealKeeper x = generous("on 0 { try { cut 1 { cut 2 { call 1; } } } else { ask 1 9; ask 2 9; say 1; } ask 1 9; say 2; }"
+        SealKeeper x = Checks.generous("on 0 { try { cut 1 { cut 2 { call 1; } } } else { ask 1 9; ask 2 9; say 1; } ask 1 9; say 2; }"
                 + " on 0 { ask 2 0; }");
         dueRun(x, "cuts are ended", 0, 99, 0);
         Checks.dueNotes(x, "cuts are ended", 11009, 1, 2);
@@ -210,7 +199,7 @@ public final class RunsTest {
         for (int m = 2; m < 20; m++) {
             chain.append("on 0 {").append(m < 19 ? "call " + (m + 1) + ";" : "").append("}");
         }
-        x = generous(chain.toString());
+        x = Checks.generous(chain.toString());
         dueRun(x, "methods are ended", 0, 999, 0);
         Checks.due("ran(2)", x.ran(2), 30);
         Checks.due("ran(4)", x.ran(4), 19);
@@ -237,22 +226,22 @@ public final class RunsTest {
     }
 
     private static void backEndsTheMethod() {
-        SealKeeper x = generous("on 0 { cut 1 { call 1; say 1; } ask 1 1; say 2; back; say 3; }"
+        SealKeeper x = Checks.generous("on 0 { cut 1 { call 1; say 1; } ask 1 1; say 2; back; say 3; }"
                 + " on 0 { loop 9 { try { cut 2 { lend 1 9 { ask 1 9; back; } } } else { } say 4; } say 5; }");
         dueRun(x, "back", 0, 99, 0);
         Checks.dueNotes(x, "back", 1, 2);
         Checks.dueRan(x, "back", 12, 1, 0, 0, 2, 0, 2, 2);
-        x = generous("on 0 { try { call 1; ask 7 7; } else { say 1; } } on 0 { back; }");
+        x = Checks.generous("on 0 { try { call 1; ask 7 7; } else { say 1; } } on 0 { back; }");
         x.rule(0, 7, -1);
         dueRun(x, "the caller's try stays", 0, 99, 0);
         Checks.dueNotes(x, "the caller's try stays", 11002, 1);
-        x = generous("on 0 { later 1; back; say 1; } on 0 { say 2; }");
+        x = Checks.generous("on 0 { later 1; back; say 1; } on 0 { say 2; }");
         dueRun(x, "the job is done", 0, 99, 0);
         Checks.dueNotes(x, "the job is done", 2);
     }
 
     private static void ifJudges() {
-        SealKeeper x = generous("on 0 { if 1 5 { say 1; } else { say 2; } cut 1 { if 1 0 { say 3; } else { say 4; ask 1 0; } } }");
+        SealKeeper x = Checks.generous("on 0 { if 1 5 { say 1; } else { say 2; } cut 1 { if 1 0 { say 3; } else { say 4; ask 1 0; } } }");
         dueRun(x, "if", 0, 99, 0);
         Checks.dueNotes(x, "if", 1, 4, 11007);
         Checks.dueRan(x, "if", 6, 1, 1, 1, 1, 0, 3, 3);
@@ -301,7 +290,7 @@ public final class RunsTest {
         Checks.dueRan(x, "a job anew", 121, 2, 0, 0, 40, 0, 40, 0);
         dueRun(x, "spent before", 0, 119, 1);
         Checks.due("ran(4)", x.ran(4), 40);
-        x = generous("on 0 { loop 9 { call 1; } } on 0 { loop 9 { call 2; } } on 0 { back; }");
+        x = Checks.generous("on 0 { loop 9 { call 1; } } on 0 { loop 9 { call 2; } } on 0 { back; }");
         dueRun(x, "those that ended do not count", 0, 3000, 0);
         Checks.due("ran(4)", x.ran(4), 3);
     }
@@ -343,7 +332,7 @@ public final class RunsTest {
 
     private static void theMostBlocks() {
         String deepest = "on 0 { say 1; " + "lend 1 1 {".repeat(11) + " call 0; " + "}".repeat(11) + " say 2; }";
-        SealKeeper x = generous(deepest);
+        SealKeeper x = Checks.generous(deepest);
         dueRun(x, "forty methods with twelve blocks each", 0, 3000, 2);
         Checks.dueRan(x, "forty methods with twelve blocks each", 40 * 13, 1, 0, 0, 40, 0, 40, 0);
         StringBuilder out = new StringBuilder();
@@ -355,14 +344,14 @@ public final class RunsTest {
         Checks.due("notes", x.ran(6), 19);
         Checks.due("the first", x.note(0), 18);
         Checks.due("the last", x.note(18), 0);
-        x = generous("on 0 { try { call 1; } else { say 1; } say 2; } on 0 { " + "cut 1 {".repeat(11) + " ask 1 1; "
+        x = Checks.generous("on 0 { try { call 1; } else { say 1; } say 2; } on 0 { " + "cut 1 {".repeat(11) + " ask 1 1; "
                 + "}".repeat(11) + "}");
         dueRun(x, "a failure far within", 0, 3000, 0);
         Checks.dueNotes(x, "a failure far within", 11015, 1, 2);
     }
 
     private static void manyRuns() {
-        SealKeeper x = generous("on 0 { loop 99 { loop 99 { cut 0 { ask 1 1; } } } } on 1 { cut 2 { lend 2 0 { ask 2 1; } } }");
+        SealKeeper x = Checks.generous("on 0 { loop 99 { loop 99 { cut 0 { ask 1 1; } } } } on 1 { cut 2 { lend 2 0 { ask 2 1; } } }");
         for (int i = 0; i < 50; i++) {
             dueRun(x, "a long one", 0, 3000, 1);
             Checks.due("judged", x.ran(7), 1491);

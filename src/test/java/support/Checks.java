@@ -51,6 +51,17 @@ final class Checks {
         return x;
     }
 
+    /** A keeper whose owners have all rights but those that a test takes away. */
+    static SealKeeper generous(String text) {
+        SealKeeper x = keeper(text);
+        for (int owner = 0; owner < 8; owner++) {
+            for (int kind = 0; kind < 8; kind++) {
+                x.rule(owner, kind, 9);
+            }
+        }
+        return x;
+    }
+
     static void dueFault(String text, int fault, int place) {
         SealKeeper x = new SealKeeper();
         due("program() of '" + text + "'", read(x, text), -100 - place);
