@@ -231,23 +231,8 @@ public final class AheadTest {
         Checks.due("of the root", x.pair(2, 0, 1, 7), 2);
     }
 
-    /** A METHOD with 256 PAIRS, one for each set of KINDS that are cut, calls others with some KINDS lent again. */
-    private static String crowd(int... lent) {
-        StringBuilder out = new StringBuilder("on 0{");
-        for (int kind = 0; kind < 8; kind++) {
-            out.append("either{cut ").append(kind).append("{call 0;}}or{}");
-        }
-        for (int i = 0; i < lent.length; i++) {
-            for (int kind = 0; kind < lent[i]; kind++) {
-                out.append("lend ").append(kind).append(" 9{");
-            }
-            out.append("call ").append(i + 1).append(";").append("}".repeat(lent[i]));
-        }
-        return out.append("}").append("on 0{}".repeat(lent.length)).toString();
-    }
-
     private static void pairsUpToTheirEdge() {
-        SealKeeper x = Checks.generous(crowd(3, 5, 6));
+        SealKeeper x = Checks.generous(Texts.crowd(3, 5, 6));
         Checks.due("256 + 32 + 8 + 4", x.ahead(0), 300);
         dueTold(x, "300", 1, 0, x.about(1), 0, 4);
         Checks.due("the first", x.pair(0, 0, 0, 0), SealKeeper.NONE);
@@ -258,7 +243,7 @@ public final class AheadTest {
             Checks.due("the last of all", x.pair(3, 3, kind, 3), kind < 6 ? SealKeeper.NONE : 0);
         }
         Checks.due("no 257th", x.pair(0, 256, 0, 0), SealKeeper.NONE);
-        x = Checks.generous(crowd(3, 5, 6, 8));
+        x = Checks.generous(Texts.crowd(3, 5, 6, 8));
         Checks.due("301", x.ahead(0), SealKeeper.MANY);
         Checks.due("nothing is kept", x.told(0), SealKeeper.STATE);
         Checks.due("ahead(1)", x.ahead(1), 1);

@@ -3,14 +3,20 @@ import java.nio.charset.StandardCharsets;
 /** What all tests share: comparing answers, and handing texts to a keeper. */
 final class Checks {
     private static int wrong = 0;
+    private static String subject = "";
 
     private Checks() {
+    }
+
+    /** What the answers from now on are about; it is printed with those that are wrong. */
+    static void about(String what) {
+        subject = what.isEmpty() ? "" : what + ": ";
     }
 
     static void due(String call, long got, long want) {
         if (got != want) {
             wrong++;
-            System.out.println(call + " answered " + got + ", due is " + want);
+            System.out.println(subject + call + " answered " + got + ", due is " + want);
         }
     }
 
@@ -67,6 +73,14 @@ final class Checks {
         due("program() of '" + text + "'", read(x, text), -100 - place);
         due("fault() of '" + text + "'", x.fault(), fault);
         due("no program after '" + text + "'", x.about(0), SealKeeper.STATE);
+    }
+
+    /** A text that is without FAULT, and how many METHODS it has. */
+    static void dueTaken(String text, int methods) {
+        SealKeeper x = new SealKeeper();
+        due("program() of '" + text + "'", read(x, text), methods);
+        due("fault() of '" + text + "'", x.fault(), 0);
+        due("methods of '" + text + "'", x.about(0), methods);
     }
 
     static void dueNotes(SealKeeper x, String what, int... notes) {
