@@ -18,8 +18,10 @@ public final class EdgesOfAheadTest {
         Sentence.test("14", "with RULES as they are", EdgesOfAheadTest::rulesAsTheyAre);
         Sentence.test("14", "whatever the BITS", EdgesOfAheadTest::whateverTheBits);
         Sentence.test("14", "by the least sets for which this holds:", EdgesOfAheadTest::leastSets);
-        Sentence.test("14", "A PAIR is a METHOD and, for each RIGHT, by whom it would be refused", EdgesOfAheadTest::differentPairs);
-        Sentence.test("14", "The PAIR of the METHOD asked for comes, with the STACK of its ENTRY alone.", EdgesOfAheadTest::entryAlone);
+        Sentence.test("14", "A PAIR is a METHOD and, for each RIGHT, by whom it would be refused",
+                EdgesOfAheadTest::differentPairs);
+        Sentence.test("14", "The PAIR of the METHOD asked for comes, with the STACK of its ENTRY alone.",
+                EdgesOfAheadTest::entryAlone);
         Sentence.test("14", "The PAIRS that come are at most 300, else it is MANY.", EdgesOfAheadTest::atMost300);
     }
 
@@ -31,10 +33,12 @@ public final class EdgesOfAheadTest {
 
     private static void ofSteps() {
         Sentence.test("15", "ask: it can END if it would be granted, else it can FAIL, and is OPEN.", EdgesOfAheadTest::asks);
-        Sentence.test("14", "call: the PAIR of that METHOD, its ENTRY being on the STACK then, comes;", EdgesOfAheadTest::callsThatCome);
+        Sentence.test("14", "call: the PAIR of that METHOD, its ENTRY being on the STACK then, comes;",
+                EdgesOfAheadTest::callsThatCome);
         Sentence.test("16", "it can END if that can END or go BACK, and FAIL if that can.", EdgesOfAheadTest::callsThatEnd);
         Sentence.test("15", "lend, cut: as their block, walked with their ENTRY on the STACK.", EdgesOfAheadTest::lendsAndCuts);
-        Sentence.test("15", "try: its first block is walked; if that can FAIL the second one, too;", EdgesOfAheadTest::triesWalked);
+        Sentence.test("15", "try: its first block is walked; if that can FAIL the second one, too;",
+                EdgesOfAheadTest::triesWalked);
         Sentence.test("16", "it can END, go BACK if one of those walked can, and FAIL if the second one is walked and can.",
                 EdgesOfAheadTest::triesThatEnd);
         Sentence.test("15", "loop: 0 TIMES: it can END; else as its block.", EdgesOfAheadTest::loops);
@@ -54,9 +58,11 @@ public final class EdgesOfAheadTest {
         Sentence.test("15", "whether a STEP was walked (what 0), is OPEN (1: an ask that would be refused with some PAIR): 1, 0.",
                 EdgesOfAheadTest::walkedOrOpen);
         Sentence.test("15", "STATE: nothing is kept; OUTSIDE: what, step.", EdgesOfAheadTest::walkedOutside);
-        Sentence.test("16", "what 0 whether the METHOD asked for can END or go BACK, 1 whether it can FAIL", EdgesOfAheadTest::toldEnds);
+        Sentence.test("16", "what 0 whether the METHOD asked for can END or go BACK, 1 whether it can FAIL",
+                EdgesOfAheadTest::toldEnds);
         Sentence.test("16", "2 how many steps were walked, 3 how many asks are OPEN", EdgesOfAheadTest::toldSteps);
-        Sentence.test("16", "4 how many METHODS came: of PAIRS that came those of different METHODS.", EdgesOfAheadTest::toldMethods);
+        Sentence.test("16", "4 how many METHODS came: of PAIRS that came those of different METHODS.",
+                EdgesOfAheadTest::toldMethods);
         Sentence.test("16", "STATE: nothing is kept; OUTSIDE.", EdgesOfAheadTest::toldOutside);
     }
 
@@ -64,21 +70,13 @@ public final class EdgesOfAheadTest {
         Sentence.test("17", "By whom a RIGHT would be refused with the PAIR of a METHOD", EdgesOfAheadTest::byWhom);
         Sentence.test("17", "that came as the k-th of its METHOD, in the order of the PAIRS' rights:", EdgesOfAheadTest::theKth);
         Sentence.test("17", "these are compared KIND by KIND, LEVEL by LEVEL", EdgesOfAheadTest::kindByKindLevelByLevel);
-        Sentence.test("17", "one granted ahead of one refused, of these the lesser OWNER ahead.", EdgesOfAheadTest::grantedAndLesserAhead);
+        Sentence.test("17", "one granted ahead of one refused, of these the lesser OWNER ahead.",
+                EdgesOfAheadTest::grantedAndLesserAhead);
         Sentence.test("17", "NONE: it would be granted, or there is no such PAIR.", EdgesOfAheadTest::pairNone);
         Sentence.test("17", "STATE: nothing is kept; OUTSIDE: method, k below 0, KIND, LEVEL.", EdgesOfAheadTest::pairOutside);
     }
 
     // ---- helpers
-
-    /** All OWNERS have all RIGHTS, but for these, who have none of KIND 0. */
-    private static SealKeeper without(String text, int... owners) {
-        SealKeeper x = Checks.generous(text);
-        for (int owner : owners) {
-            x.rule(owner, 0, -1);
-        }
-        return x;
-    }
 
     private static int countOf(String marks, char mark) {
         return (int) marks.chars().filter(c -> c == mark).count();
@@ -124,6 +122,11 @@ public final class EdgesOfAheadTest {
                 dueNothingKept(x, text);
             }
         }
+        for (String text : new String[] {"on 0{keep 0;under 0{}}", "on 0{keep 0;later 0;}", "on 0{under 0{later 0;}}",
+            "on 0{keep 0;keep 1;under 0{}later 0;}", "on 0{keep 0;under 0{under 1{later 0;}}}",
+                    "on 0{later 0;later 0;keep 0;under 0{}}"}) {
+            Checks.due("ahead(0) of " + text, Checks.generous(text).ahead(0), STATE);
+        }
         SealKeeper x = Checks.generous("on 0{ask 0 0;call 0;lend 0 0{}cut 0{}try{}else{}loop 0{}say 0;if 0 0{}else{}either{}or{}back;}");
         Checks.due("all others", x.ahead(0), 1);
     }
@@ -141,7 +144,7 @@ public final class EdgesOfAheadTest {
     }
 
     private static void whateverTheBits() {
-        SealKeeper x = without("on 0{either{ask 0 0;say 1;}or{say 2;}say 3;}", 0);
+        SealKeeper x = Checks.without("on 0{either{ask 0 0;say 1;}or{say 2;}say 3;}", 0);
         due(x, "no bits", "12011", "EF", 1);
         x.bits(0, 32);
         due(x, "all are 0", "12011", "EF", 1);
@@ -151,26 +154,33 @@ public final class EdgesOfAheadTest {
     }
 
     private static void leastSets() {
-        due(without("on 0{call 0;}"), "itself alone", "1", "", 1);
-        due(without("on 0{say 1;call 1;say 2;}on 0{call 0;say 3;}"), "each the other", "11010", "", 2);
-        due(without("on 0{either{call 1;say 1;}or{}}on 0{call 0;say 2;}"), "with a way out", "11111", "E", 2);
-        due(without("on 0{either{call 0;ask 0 0;}or{say 1;}}", 0), "what it can by itself counts in it", "1121", "EF", 1);
-        due(without("on 0{either{call 0;say 1;}or{ask 0 0;}say 2;}", 0), "it can fail alone", "11020", "F", 1);
-        due(without("on 0{either{call 0;say 1;}or{back;}say 2;}"), "it can go back", "11111", "E", 1);
-        due(without("on 0{try{call 1;say 1;}else{say 2;}say 3;}on 0{call 1;}"), "a try does not help", "110001", "", 2);
-        due(without("on 0{try{call 0;}else{say 1;}either{say 2;}or{ask 0 0;}}", 0), "a way out behind itself alone", "110000", "", 1);
+        due(Checks.without("on 0{call 0;}"), "itself alone", "1", "", 1);
+        due(Checks.without("on 0{say 1;call 1;say 2;}on 0{call 0;say 3;}"), "each the other", "11010", "", 2);
+        due(Checks.without("on 0{either{call 1;say 1;}or{}}on 0{call 0;say 2;}"), "with a way out", "11111", "E", 2);
+        due(Checks.without("on 0{either{call 0;ask 0 0;}or{say 1;}}", 0), "what it can by itself counts in it", "1121", "EF", 1);
+        due(Checks.without("on 0{either{call 0;say 1;}or{ask 0 0;}say 2;}", 0), "it can fail alone", "11020", "F", 1);
+        due(Checks.without("on 0{either{call 0;say 1;}or{back;}say 2;}"), "it can go back", "11111", "E", 1);
+        due(Checks.without("on 0{try{call 1;say 1;}else{say 2;}say 3;}on 0{call 1;}"), "a try does not help", "110001", "", 2);
+        due(Checks.without("on 0{try{call 0;}else{say 1;}either{say 2;}or{ask 0 0;}}", 0), "a way out behind itself alone",
+                "110000", "", 1);
         StringBuilder chain = new StringBuilder();
         for (int m = 0; m < 19; m++) {
             chain.append("on 0{call ").append(m + 1).append(";say1;}");
         }
-        due(without(chain + "on 0{}"), "through twenty methods", "1".repeat(38), "E", 20);
-        due(without(chain + "on 0{call 0;}"), "through twenty methods, and round", "10".repeat(19) + "1", "", 20);
-        due(without(chain + "on 0{either{call 0;}or{}}"), "round, with a way out at the end", "1".repeat(40), "E", 20);
+        due(Checks.without(chain + "on 0{}"), "through twenty methods", "1".repeat(38), "E", 20);
+        due(Checks.without(chain + "on 0{call 0;}"), "through twenty methods, and round", "10".repeat(19) + "1", "", 20);
+        due(Checks.without(chain + "on 0{either{call 0;}or{}}"), "round, with a way out at the end", "1".repeat(40), "E", 20);
+        SealKeeper x = Checks.without(Texts.crowdOf(6, 0, 0));
+        Checks.due("64 pairs that call two more each, one behind the other", x.ahead(0), 192);
+        Checks.due("the last of them", x.pair(2, 63, 5, 0), 0);
+        x = Checks.without(Texts.crowdOf(5, 0, 0, 0, 0, 0, 0, 0, 0));
+        Checks.due("32 pairs that call eight more each, one behind the other", x.ahead(0), 288);
+        Checks.due("the last of them", x.pair(8, 31, 4, 0), 0);
     }
 
     private static void differentPairs() {
         String twice = "on 0{call 1;call 2;}on 1{call 2;}on 2{}";
-        SealKeeper x = without(twice);
+        SealKeeper x = Checks.without(twice);
         Checks.due("other stacks, the same rights", x.ahead(0), 3);
         x.rule(1, 3, 8);
         Checks.due("a level of a kind is another", x.ahead(0), 4);
@@ -181,18 +191,20 @@ public final class EdgesOfAheadTest {
         Checks.due("refused by another", x.ahead(0), 4);
         x.rule(2, 7, -1);
         Checks.due("refused by itself in both", x.ahead(0), 3);
-        x = without("on 0{cut 0{call 2;}call 1;}on 1{cut 0{call 2;}}on 2{}");
+        x = Checks.without("on 0{cut 0{call 2;}call 1;}on 1{cut 0{call 2;}}on 2{}");
         Checks.due("cut by others", x.ahead(0), 4);
-        x = without("on 0{cut 0{call 1;}cut 0{cut 0{call 1;}}cut 0{lend 0 0{cut 0{call 1;}}}}on 2{}");
+        x = Checks.without("on 0{cut 0{call 1;}cut 0{cut 0{call 1;}}cut 0{lend 0 0{cut 0{call 1;}}}}on 2{}");
         Checks.due("cut in other ways", x.ahead(0), 2);
-        x = without("on 0{lend 0 0{call 1;}lend 0 9{call 1;}call 1;}on 2{}");
+        x = Checks.without("on 0{lend 0 0{call 1;}lend 0 9{call 1;}call 1;}on 2{}");
         Checks.due("lending what all have", x.ahead(0), 2);
-        x = without("on 0{cut 0{lend 0 0{call 1;}lend 0 9{call 1;}lend 0 8{call 1;}call 1;}}on 2{}");
+        x = Checks.without("on 0{cut 0{call 1;}call 1;lend 0 4{call 1;}cut 0{call 1;}call 1;}on 2{}", 2);
+        Checks.due("what it lacks itself makes no difference", x.ahead(0), 2);
+        x = Checks.without("on 0{cut 0{lend 0 0{call 1;}lend 0 9{call 1;}lend 0 8{call 1;}call 1;}}on 2{}");
         Checks.due("lending what was cut", x.ahead(0), 5);
     }
 
     private static void entryAlone() {
-        SealKeeper x = without("on 0{call 1;}on 1{ask 0 0;}", 0);
+        SealKeeper x = Checks.without("on 0{call 1;}on 1{ask 0 0;}", 0);
         Checks.due("ahead(0)", x.ahead(0), 2);
         dueTold(x, "called", "12", "F", 2);
         Checks.due("called", x.pair(1, 0, 0, 0), 0);
@@ -203,7 +215,7 @@ public final class EdgesOfAheadTest {
         x.ahead(1);
         Checks.due("its own entry", x.pair(1, 0, 0, 6), NONE);
         Checks.due("its own entry", x.pair(1, 0, 0, 7), 1);
-        x = without("on 0{cut 0{call 0;}}");
+        x = Checks.without("on 0{cut 0{call 0;}}");
         Checks.due("it can come with others, too", x.ahead(0), 2);
     }
 
@@ -231,32 +243,33 @@ public final class EdgesOfAheadTest {
 
     private static void oneBehindTheOther() {
         String text = "on 0{say 1;ask 0 0;say 2;call 1;}on 0{say 3;}";
-        due(without(text), "all", "11111", "E", 2);
-        due(without(text, 0), "up to an ask", "12000", "F", 1);
-        due(without("on 0{call 1;say 1;}on 0{call 1;}"), "up to a call", "101", "", 2);
-        due(without("on 0{cut 1{back;say 1;}say 2;}"), "up to a back", "1100", "E", 1);
-        due(without("on 0{cut 0{ask 0 0;}say 2;}"), "up to a cut", "120", "F", 1);
-        due(without("on 0{loop 1{ask 0 0;say 1;}say 2;}", 0), "up to a loop", "1200", "F", 1);
-        due(without("on 0{either{ask 0 0;}or{back;}say 2;}", 0), "up to an either", "1210", "EF", 1);
-        due(without("on 0{" + "say1;".repeat(199) + "ask0 0;}", 0), "all 200", "1".repeat(199) + "2", "F", 1);
+        due(Checks.without(text), "all", "11111", "E", 2);
+        due(Checks.without(text, 0), "up to an ask", "12000", "F", 1);
+        due(Checks.without("on 0{call 1;say 1;}on 0{call 1;}"), "up to a call", "101", "", 2);
+        due(Checks.without("on 0{cut 1{back;say 1;}say 2;}"), "up to a back", "1100", "E", 1);
+        due(Checks.without("on 0{cut 0{ask 0 0;}say 2;}"), "up to a cut", "120", "F", 1);
+        due(Checks.without("on 0{loop 1{ask 0 0;say 1;}say 2;}", 0), "up to a loop", "1200", "F", 1);
+        due(Checks.without("on 0{either{ask 0 0;}or{back;}say 2;}", 0), "up to an either", "1210", "EF", 1);
+        due(Checks.without("on 0{" + "say1;".repeat(199) + "ask0 0;}", 0), "all 200", "1".repeat(199) + "2", "F", 1);
     }
 
     private static void blocksThatCanEnd() {
-        due(without("on 0{}"), "no step", "", "E", 1);
-        due(without("on 0{say 1;ask 0 0;}", 0), "the last can not", "12", "F", 1);
-        due(without("on 0{ask 0 0;say 1;}", 0), "the last is not walked", "20", "F", 1);
-        due(without("on 0{either{ask 0 0;}or{}say 1;}", 0), "the last can", "121", "EF", 1);
-        due(without("on 0{lend 0 0{}cut 0{}loop 9{}try{}else{}either{}or{}if 0 0{}else{}say 1;}"), "empty blocks", "1111111", "E", 1);
-        due(without("on 0{call 1;say 1;}on 0{}"), "an empty method", "11", "E", 2);
+        due(Checks.without("on 0{}"), "no step", "", "E", 1);
+        due(Checks.without("on 0{say 1;ask 0 0;}", 0), "the last can not", "12", "F", 1);
+        due(Checks.without("on 0{ask 0 0;say 1;}", 0), "the last is not walked", "20", "F", 1);
+        due(Checks.without("on 0{either{ask 0 0;}or{}say 1;}", 0), "the last can", "121", "EF", 1);
+        due(Checks.without("on 0{lend 0 0{}cut 0{}loop 9{}try{}else{}either{}or{}if 0 0{}else{}say 1;}"), "empty blocks",
+                "1111111", "E", 1);
+        due(Checks.without("on 0{call 1;say 1;}on 0{}"), "an empty method", "11", "E", 2);
     }
 
     private static void blocksThatCanFail() {
-        due(without("on 0{either{ask 0 0;}or{}either{back;}or{}say 1;}", 0), "fail, back and end", "12111", "EF", 1);
-        due(without("on 0{either{ask 0 0;}or{}call 1;}on 0{call 1;}", 0), "fail alone", "1211", "F", 2);
-        due(without("on 0{either{back;}or{}call 1;}on 0{call 1;}"), "back alone", "1111", "E", 2);
-        due(without("on 0{back;ask 0 0;}", 0), "what is not walked can not", "10", "E", 1);
-        due(without("on 0{ask 0 0;back;}", 0), "what is not walked can not", "20", "F", 1);
-        due(without(Texts.nested(12, "ask 1 0;")), "within twelve blocks", "1".repeat(11) + "2", "F", 1);
+        due(Checks.without("on 0{either{ask 0 0;}or{}either{back;}or{}say 1;}", 0), "fail, back and end", "12111", "EF", 1);
+        due(Checks.without("on 0{either{ask 0 0;}or{}call 1;}on 0{call 1;}", 0), "fail alone", "1211", "F", 2);
+        due(Checks.without("on 0{either{back;}or{}call 1;}on 0{call 1;}"), "back alone", "1111", "E", 2);
+        due(Checks.without("on 0{back;ask 0 0;}", 0), "what is not walked can not", "10", "E", 1);
+        due(Checks.without("on 0{ask 0 0;back;}", 0), "what is not walked can not", "20", "F", 1);
+        due(Checks.without(Texts.nested(12, "ask 1 0;")), "within twelve blocks", "1".repeat(11) + "2", "F", 1);
     }
 
     // ---- steps
@@ -269,35 +282,35 @@ public final class EdgesOfAheadTest {
             x.rule(7, 7, level - 1);
             due(x, "one below", "20", "F", 1);
         }
-        SealKeeper x = without("on 0{call 1;cut 0{call 1;}}on 0{try{ask 0 0;}else{}}");
+        SealKeeper x = Checks.without("on 0{call 1;cut 0{call 1;}}on 0{try{ask 0 0;}else{}}");
         Checks.due("ahead(0)", x.ahead(0), 3);
         dueTold(x, "with some pair", "11112", "E", 2);
     }
 
     private static void callsThatCome() {
-        SealKeeper x = without("on 0{call 1;}on 1{call 2;}on 2{}on 3{call 0;}", 1);
+        SealKeeper x = Checks.without("on 0{call 1;}on 1{call 2;}on 2{}on 3{call 0;}", 1);
         Checks.due("ahead(0)", x.ahead(0), 3);
         Checks.due("the caller", x.pair(0, 0, 0, 0), NONE);
         Checks.due("its own entry", x.pair(1, 0, 0, 0), 1);
         Checks.due("the entries below", x.pair(2, 0, 0, 0), 1);
         Checks.due("one that is not called", x.pair(3, 0, 0, 0), NONE);
         Checks.due("methods", x.told(4), 3);
-        x = without("on 0{ask 0 0;call 1;}on 1{}", 0);
+        x = Checks.without("on 0{ask 0 0;call 1;}on 1{}", 0);
         due(x, "a call that is not walked", "20", "F", 1);
-        x = without("on 0{loop 0{call 1;}if 0 0{}else{call 1;}try{}else{call 1;}back;call 1;}on 1{}");
+        x = Checks.without("on 0{loop 0{call 1;}if 0 0{}else{call 1;}try{}else{call 1;}back;call 1;}on 1{}");
         due(x, "calls that are not walked", "10101010", "E", 1);
-        x = without(Texts.nested(12, "call 1;") + "on 0{}");
+        x = Checks.without(Texts.nested(12, "call 1;") + "on 0{}");
         Checks.due("in the twelfth block", x.ahead(0), 2);
         Checks.due("its pair", x.pair(1, 0, 1, 9), 0);
     }
 
     private static void callsThatEnd() {
-        due(without("on 0{call 1;say 1;}on 0{say 2;}"), "it ends", "111", "E", 2);
-        due(without("on 0{call 1;say 1;}on 0{back;}"), "it goes back", "111", "E", 2);
-        due(without("on 0{call 1;say 1;}on 0{ask 0 0;}", 0), "it fails", "102", "F", 2);
-        due(without("on 0{call 1;say 1;}on 0{either{back;}or{ask 0 0;}}", 0), "it goes back or fails", "11112", "EF", 2);
-        due(without("on 0{call 1;say 1;}on 0{call 1;}"), "neither", "101", "", 2);
-        due(without("on 0{call 1;ask 0 0;}on 0{back;}", 0), "its back is not the caller's", "121", "F", 2);
+        due(Checks.without("on 0{call 1;say 1;}on 0{say 2;}"), "it ends", "111", "E", 2);
+        due(Checks.without("on 0{call 1;say 1;}on 0{back;}"), "it goes back", "111", "E", 2);
+        due(Checks.without("on 0{call 1;say 1;}on 0{ask 0 0;}", 0), "it fails", "102", "F", 2);
+        due(Checks.without("on 0{call 1;say 1;}on 0{either{back;}or{ask 0 0;}}", 0), "it goes back or fails", "11112", "EF", 2);
+        due(Checks.without("on 0{call 1;say 1;}on 0{call 1;}"), "neither", "101", "", 2);
+        due(Checks.without("on 0{call 1;ask 0 0;}on 0{back;}", 0), "its back is not the caller's", "121", "F", 2);
     }
 
     private static void lendsAndCuts() {
@@ -313,51 +326,58 @@ public final class EdgesOfAheadTest {
         }
         for (int cut = 0; cut < 8; cut++) {
             for (int asked = 0; asked < 8; asked++) {
-                SealKeeper x = Checks.keeper("on 0{cut " + cut + "{ask " + asked + " 0;ask " + asked + " 9;}ask " + asked + " 9;}");
+                SealKeeper x = Checks.keeper("on 0{cut " + cut + "{ask " + asked + " 0;ask " + asked + " 9;}ask " + asked
+                        + " 9;}");
                 x.rule(0, asked, 9);
                 due(x, "cut " + cut + ", asked " + asked, cut == asked ? "1200" : "1111", cut == asked ? "F" : "E", 1);
             }
         }
-        due(without("on 0{cut 0{}lend 0 0{}ask 0 9;}"), "behind the blocks", "111", "E", 1);
-        due(without("on 0{cut 0{lend 0 4{ask 0 4;cut 0{lend 0 3{ask 0 3;ask 0 4;}}}}}"), "within one another", "1111112", "F", 1);
-        due(without("on 0{cut 0{back;}say 1;}"), "they go back", "110", "E", 1);
-        due(without("on 0{call 1;}on 1{lend 0 5{lend 0 3{either{ask 0 5;}or{ask 0 6;}}}}", 0), "the lower lend is looked at", "111112", "EF", 2);
+        due(Checks.without("on 0{cut 0{}lend 0 0{}ask 0 9;}"), "behind the blocks", "111", "E", 1);
+        due(Checks.without("on 0{cut 0{lend 0 4{ask 0 4;cut 0{lend 0 3{ask 0 3;ask 0 4;}}}}}"), "within one another", "1111112",
+                "F", 1);
+        due(Checks.without("on 0{cut 0{back;}say 1;}"), "they go back", "110", "E", 1);
+        due(Checks.without("on 0{call 1;}on 1{lend 0 5{lend 0 3{either{ask 0 5;}or{ask 0 6;}}}}", 0),
+                "the lower lend is looked at", "111112", "EF", 2);
     }
 
     private static void triesWalked() {
-        due(without("on 0{try{}else{say 1;}say 2;}"), "an empty first block", "101", "E", 1);
-        due(without("on 0{try{ask 0 0;say 1;}else{say 2;}say 3;}"), "it can not fail", "11101", "E", 1);
-        due(without("on 0{try{ask 0 0;say 1;}else{say 2;}say 3;}", 0), "it can fail", "12011", "E", 1);
-        due(without("on 0{try{call 1;}else{say 2;}}on 0{ask 0 0;}", 0), "in what it calls", "1112", "E", 2);
-        due(without("on 0{try{back;}else{say 2;}say 3;}"), "back is no failure", "1100", "E", 1);
-        due(without("on 0{try{call 0;}else{say 2;}say 3;}"), "not ending is no failure", "1100", "", 1);
-        due(without("on 0{try{if 0 0{}else{say 1;}}else{say 2;}}", 0), "an if is no failure", "1110", "E", 1);
-        due(without("on 0{cut 0{try{cut 1{ask 1 0;}}else{ask 1 0;ask 0 0;}}}"), "with the stack around it", "1112" + "12", "F", 1);
+        due(Checks.without("on 0{try{}else{say 1;}say 2;}"), "an empty first block", "101", "E", 1);
+        due(Checks.without("on 0{try{ask 0 0;say 1;}else{say 2;}say 3;}"), "it can not fail", "11101", "E", 1);
+        due(Checks.without("on 0{try{ask 0 0;say 1;}else{say 2;}say 3;}", 0), "it can fail", "12011", "E", 1);
+        due(Checks.without("on 0{try{call 1;}else{say 2;}}on 0{ask 0 0;}", 0), "in what it calls", "1112", "E", 2);
+        due(Checks.without("on 0{try{back;}else{say 2;}say 3;}"), "back is no failure", "1100", "E", 1);
+        due(Checks.without("on 0{try{call 0;}else{say 2;}say 3;}"), "not ending is no failure", "1100", "", 1);
+        due(Checks.without("on 0{try{if 0 0{}else{say 1;}}else{say 2;}}", 0), "an if is no failure", "1110", "E", 1);
+        due(Checks.without("on 0{cut 0{try{cut 1{ask 1 0;}}else{ask 1 0;ask 0 0;}}}"), "with the stack around it", "1112"
+                + "12", "F", 1);
     }
 
     private static void triesThatEnd() {
-        due(without("on 0{try{ask 0 0;}else{}say 1;}", 0), "the second ends", "121", "E", 1);
-        due(without("on 0{try{ask 0 0;}else{ask 0 1;}say 1;}", 0), "the second fails", "1220", "F", 1);
-        due(without("on 0{try{ask 0 0;}else{back;}say 1;}", 0), "the second goes back", "1210", "E", 1);
-        due(without("on 0{try{either{}or{ask 0 0;}}else{call 1;}say 1;}on 0{call 1;}", 0), "the first ends", "112111", "E", 2);
-        due(without("on 0{try{either{back;}or{ask 0 0;}}else{ask 0 1;}say 1;}", 0), "the first goes back, the second fails", "111220", "EF", 1);
-        due(without("on 0{try{either{}or{ask 0 0;}}else{ask 0 1;}say 1;}", 0), "the first ends, the second fails", "11221", "EF", 1);
-        due(without("on 0{try{say 1;}else{ask 0 0;}}", 0), "the second is not walked", "110", "E", 1);
-        due(without("on 0{try{try{ask 0 0;}else{ask 0 1;}}else{say 1;}}", 0), "one around it", "11221", "E", 1);
+        due(Checks.without("on 0{try{ask 0 0;}else{}say 1;}", 0), "the second ends", "121", "E", 1);
+        due(Checks.without("on 0{try{ask 0 0;}else{ask 0 1;}say 1;}", 0), "the second fails", "1220", "F", 1);
+        due(Checks.without("on 0{try{ask 0 0;}else{back;}say 1;}", 0), "the second goes back", "1210", "E", 1);
+        due(Checks.without("on 0{try{either{}or{ask 0 0;}}else{call 1;}say 1;}on 0{call 1;}", 0), "the first ends", "112111",
+                "E", 2);
+        due(Checks.without("on 0{try{either{back;}or{ask 0 0;}}else{ask 0 1;}say 1;}", 0),
+                "the first goes back, the second fails", "111220", "EF", 1);
+        due(Checks.without("on 0{try{either{}or{ask 0 0;}}else{ask 0 1;}say 1;}", 0), "the first ends, the second fails",
+                "11221", "EF", 1);
+        due(Checks.without("on 0{try{say 1;}else{ask 0 0;}}", 0), "the second is not walked", "110", "E", 1);
+        due(Checks.without("on 0{try{try{ask 0 0;}else{ask 0 1;}}else{say 1;}}", 0), "one around it", "11221", "E", 1);
     }
 
     private static void loops() {
         for (int times : new int[] {1, 2, 99}) {
-            due(without("on 0{loop " + times + "{say 1;}say 2;}"), "its block ends", "111", "E", 1);
-            due(without("on 0{loop " + times + "{ask 0 0;}say 2;}", 0), "its block fails", "120", "F", 1);
-            due(without("on 0{loop " + times + "{back;}say 2;}"), "its block goes back", "110", "E", 1);
-            due(without("on 0{loop " + times + "{call 0;}say 2;}"), "its block does nothing", "110", "", 1);
-            due(without("on 0{loop " + times + "{}say 2;}"), "its block is empty", "11", "E", 1);
+            due(Checks.without("on 0{loop " + times + "{say 1;}say 2;}"), "its block ends", "111", "E", 1);
+            due(Checks.without("on 0{loop " + times + "{ask 0 0;}say 2;}", 0), "its block fails", "120", "F", 1);
+            due(Checks.without("on 0{loop " + times + "{back;}say 2;}"), "its block goes back", "110", "E", 1);
+            due(Checks.without("on 0{loop " + times + "{call 0;}say 2;}"), "its block does nothing", "110", "", 1);
+            due(Checks.without("on 0{loop " + times + "{}say 2;}"), "its block is empty", "11", "E", 1);
         }
-        due(without("on 0{loop 0{ask 0 0;}say 2;}", 0), "0 times a failure", "101", "E", 1);
-        due(without("on 0{loop 0{back;}ask 0 0;}", 0), "0 times a back", "102", "F", 1);
-        due(without("on 0{loop 0{call 1;}}on 0{}"), "0 times a call", "10", "E", 1);
-        due(without("on 0{loop 000{call 1;}}on 0{}"), "000 times a call", "10", "E", 1);
+        due(Checks.without("on 0{loop 0{ask 0 0;}say 2;}", 0), "0 times a failure", "101", "E", 1);
+        due(Checks.without("on 0{loop 0{back;}ask 0 0;}", 0), "0 times a back", "102", "F", 1);
+        due(Checks.without("on 0{loop 0{call 1;}}on 0{}"), "0 times a call", "10", "E", 1);
+        due(Checks.without("on 0{loop 000{call 1;}}on 0{}"), "000 times a call", "10", "E", 1);
     }
 
     private static void ifs() {
@@ -366,29 +386,29 @@ public final class EdgesOfAheadTest {
             x.rule(0, 0, rule);
             due(x, "rule " + rule, rule >= 5 ? "1101" : "1020", rule >= 5 ? "E" : "F", 1);
         }
-        due(without("on 0{if 0 0{back;}else{}say 3;}"), "the first goes back", "110", "E", 1);
-        due(without("on 0{if 0 0{back;}else{}say 3;}", 0), "the second is empty", "101", "E", 1);
-        x = without("on 0{call 1;cut 0{call 1;}}on 0{if 0 0{say 1;}else{say 2;}}");
+        due(Checks.without("on 0{if 0 0{back;}else{}say 3;}"), "the first goes back", "110", "E", 1);
+        due(Checks.without("on 0{if 0 0{back;}else{}say 3;}", 0), "the second is empty", "101", "E", 1);
+        x = Checks.without("on 0{call 1;cut 0{call 1;}}on 0{if 0 0{say 1;}else{say 2;}}");
         Checks.due("ahead(0)", x.ahead(0), 3);
         dueTold(x, "with a pair each", "111111", "E", 2);
     }
 
     private static void eithers() {
-        due(without("on 0{either{}or{}say 1;}"), "both are empty", "11", "E", 1);
-        due(without("on 0{either{ask 0 0;}or{}say 1;}", 0), "the first fails", "121", "EF", 1);
-        due(without("on 0{either{}or{ask 0 0;}say 1;}", 0), "the second fails", "121", "EF", 1);
-        due(without("on 0{either{ask 0 0;}or{ask 0 1;}say 1;}", 0), "both fail", "1220", "F", 1);
-        due(without("on 0{either{back;}or{back;}say 1;}"), "both go back", "1110", "E", 1);
-        due(without("on 0{either{call 0;}or{back;}say 1;}"), "one goes back, one is itself", "1111", "E", 1);
-        due(without("on 0{either{cut 0{ask 0 0;}}or{ask 0 0;}say 1;}"), "each with the stack around it", "11211", "EF", 1);
+        due(Checks.without("on 0{either{}or{}say 1;}"), "both are empty", "11", "E", 1);
+        due(Checks.without("on 0{either{ask 0 0;}or{}say 1;}", 0), "the first fails", "121", "EF", 1);
+        due(Checks.without("on 0{either{}or{ask 0 0;}say 1;}", 0), "the second fails", "121", "EF", 1);
+        due(Checks.without("on 0{either{ask 0 0;}or{ask 0 1;}say 1;}", 0), "both fail", "1220", "F", 1);
+        due(Checks.without("on 0{either{back;}or{back;}say 1;}"), "both go back", "1110", "E", 1);
+        due(Checks.without("on 0{either{call 0;}or{back;}say 1;}"), "one goes back, one is itself", "1111", "E", 1);
+        due(Checks.without("on 0{either{cut 0{ask 0 0;}}or{ask 0 0;}say 1;}"), "each with the stack around it", "11211", "EF", 1);
     }
 
     private static void saysAndBacks() {
-        due(without("on 0{say 0;say 999;}"), "say", "11", "E", 1);
-        due(without("on 0{back;}"), "back", "1", "E", 1);
-        due(without("on 0{back;say 1;}"), "back can not end", "10", "E", 1);
-        due(without("on 0{call 1;say 1;}on 0{back;}"), "back of one that is called", "111", "E", 2);
-        due(without("on 0{try{back;}else{say 1;}}"), "back can not fail", "110", "E", 1);
+        due(Checks.without("on 0{say 0;say 999;}"), "say", "11", "E", 1);
+        due(Checks.without("on 0{back;}"), "back", "1", "E", 1);
+        due(Checks.without("on 0{back;say 1;}"), "back can not end", "10", "E", 1);
+        due(Checks.without("on 0{call 1;say 1;}on 0{back;}"), "back of one that is called", "111", "E", 2);
+        due(Checks.without("on 0{try{back;}else{say 1;}}"), "back can not fail", "110", "E", 1);
     }
 
     // ---- ahead
@@ -403,12 +423,12 @@ public final class EdgesOfAheadTest {
             Checks.due("of the first", x.ahead(0), methods);
             Checks.due("of the last", x.ahead(methods - 1), 1);
         }
-        SealKeeper x = without("on 0{cut 0{call 1;}call 1;cut 0{call 1;}call 1;}on 0{}");
+        SealKeeper x = Checks.without("on 0{cut 0{call 1;}call 1;cut 0{call 1;}call 1;}on 0{}");
         Checks.due("those that come again count once", x.ahead(0), 3);
     }
 
     private static void whatIsKept() {
-        SealKeeper x = without("on 0{ask 0 0;call 1;}on 0{say 1;}");
+        SealKeeper x = Checks.without("on 0{ask 0 0;call 1;}on 0{say 1;}");
         Checks.due("ahead(0)", x.ahead(0), 2);
         x.rule(0, 0, -1);
         dueTold(x, "rule", "111", "E", 2);
@@ -471,14 +491,15 @@ public final class EdgesOfAheadTest {
     // ---- walked and told
 
     private static void walkedOrOpen() {
-        SealKeeper x = without("on 0{" + "say1;".repeat(198) + "cut0{ask0 0;}}");
+        SealKeeper x = Checks.without("on 0{" + "say1;".repeat(198) + "cut0{ask0 0;}}");
         x.ahead(0);
         Checks.due("the first", x.walked(0, 0), 1);
         Checks.due("the first is no ask", x.walked(0, 1), 0);
         Checks.due("the last", x.walked(199, 0), 1);
         Checks.due("the last is open", x.walked(199, 1), 1);
-        due(without("on 0{if 0 0{}else{}try{cut 0{ask 0 0;}}else{say 1;}back;ask 0 0;}", 0), "others are not open", "11121" + "10", "E", 1);
-        x = without("on 0{call 2;call 1;}on 1{try{call 2;}else{}}on 2{ask 0 0;}", 1);
+        due(Checks.without("on 0{if 0 0{}else{}try{cut 0{ask 0 0;}}else{say 1;}back;ask 0 0;}", 0), "others are not open",
+                "11121" + "10", "E", 1);
+        x = Checks.without("on 0{call 2;call 1;}on 1{try{call 2;}else{}}on 2{ask 0 0;}", 1);
         Checks.due("ahead(0)", x.ahead(0), 4);
         dueTold(x, "granted with one pair, refused with another", "11112", "E", 3);
         Checks.due("ahead(2)", x.ahead(2), 1);
@@ -506,32 +527,32 @@ public final class EdgesOfAheadTest {
     }
 
     private static void toldEnds() {
-        due(without("on 0{say 1;}"), "end", "1", "E", 1);
-        due(without("on 0{back;}"), "back", "1", "E", 1);
-        due(without("on 0{either{back;}or{}}"), "end and back", "11", "E", 1);
-        due(without("on 0{ask 0 0;}", 0), "fail", "2", "F", 1);
-        due(without("on 0{call 0;}"), "none", "1", "", 1);
-        due(without("on 0{either{back;}or{ask 0 0;}}", 0), "back and fail", "112", "EF", 1);
-        due(without("on 0{either{}or{ask 0 0;}}", 0), "end and fail", "12", "EF", 1);
-        SealKeeper x = without("on 0{ask 0 0;}on 1{}", 0);
+        due(Checks.without("on 0{say 1;}"), "end", "1", "E", 1);
+        due(Checks.without("on 0{back;}"), "back", "1", "E", 1);
+        due(Checks.without("on 0{either{back;}or{}}"), "end and back", "11", "E", 1);
+        due(Checks.without("on 0{ask 0 0;}", 0), "fail", "2", "F", 1);
+        due(Checks.without("on 0{call 0;}"), "none", "1", "", 1);
+        due(Checks.without("on 0{either{back;}or{ask 0 0;}}", 0), "back and fail", "112", "EF", 1);
+        due(Checks.without("on 0{either{}or{ask 0 0;}}", 0), "end and fail", "12", "EF", 1);
+        SealKeeper x = Checks.without("on 0{ask 0 0;}on 1{}", 0);
         x.ahead(1);
         dueTold(x, "of the method asked for", "0", "E", 1);
-        x = without("on 0{either{try{cut 0{call 0;}}else{}}or{}ask 0 0;}");
+        x = Checks.without("on 0{either{try{cut 0{call 0;}}else{}}or{}ask 0 0;}");
         Checks.due("ahead(0)", x.ahead(0), 2);
         dueTold(x, "its other pair can fail", "11112", "E", 1);
     }
 
     private static void toldSteps() {
-        due(without("on 0{}on 0{say 1;}"), "none of one", "0", "E", 1);
-        due(without("on 0{" + "say1;".repeat(200) + "}"), "all of 200", "1".repeat(200), "E", 1);
-        due(without("on 0{" + "either{ask0 0;}or{}".repeat(60) + "}", 0), "60 open ones", "12".repeat(60), "EF", 1);
-        SealKeeper x = without("on 0{cut 0{call 1;}cut 1{call 1;}call 1;}on 0{try{ask 0 0;ask 1 0;}else{}}");
+        due(Checks.without("on 0{}on 0{say 1;}"), "none of one", "0", "E", 1);
+        due(Checks.without("on 0{" + "say1;".repeat(200) + "}"), "all of 200", "1".repeat(200), "E", 1);
+        due(Checks.without("on 0{" + "either{ask0 0;}or{}".repeat(60) + "}", 0), "60 open ones", "12".repeat(60), "EF", 1);
+        SealKeeper x = Checks.without("on 0{cut 0{call 1;}cut 1{call 1;}call 1;}on 0{try{ask 0 0;ask 1 0;}else{}}");
         Checks.due("ahead(0)", x.ahead(0), 4);
         dueTold(x, "each counts once", "11111" + "122", "E", 2);
     }
 
     private static void toldMethods() {
-        SealKeeper x = without("on 0{cut 0{call 1;}cut 1{call 1;}call 1;}on 0{}on 0{}");
+        SealKeeper x = Checks.without("on 0{cut 0{call 1;}cut 1{call 1;}call 1;}on 0{}on 0{}");
         Checks.due("ahead(0)", x.ahead(0), 4);
         Checks.due("two", x.told(4), 2);
         Checks.due("ahead(2)", x.ahead(2), 1);
@@ -540,7 +561,7 @@ public final class EdgesOfAheadTest {
         for (int m = 1; m < 20; m++) {
             all.append("call ").append(m).append(";");
         }
-        x = without(all + "}" + Texts.methods(19));
+        x = Checks.without(all + "}" + Texts.methods(19));
         Checks.due("ahead(0)", x.ahead(0), 20);
         Checks.due("twenty", x.told(4), 20);
         x = Checks.generous(Texts.crowd(3, 5, 6));
@@ -595,7 +616,7 @@ public final class EdgesOfAheadTest {
     }
 
     private static void theKth() {
-        SealKeeper x = without("on 0{cut 7{call 1;}cut 0{call 1;}call 1;cut 3{call 1;}}on 0{}");
+        SealKeeper x = Checks.without("on 0{cut 7{call 1;}cut 0{call 1;}call 1;cut 3{call 1;}}on 0{}");
         Checks.due("ahead(0)", x.ahead(0), 5);
         int[] cut = {-1, 7, 3, 0};
         for (int k = 0; k < 4; k++) {
@@ -619,25 +640,30 @@ public final class EdgesOfAheadTest {
     }
 
     private static void kindByKindLevelByLevel() {
-        SealKeeper x = without("on 0{cut 0{call 1;}cut 7{call 1;}}on 0{}");
+        SealKeeper x = Checks.without("on 0{cut 0{call 1;}cut 7{call 1;}}on 0{}");
         x.ahead(0);
         Checks.due("kind 0 is looked at first", x.pair(1, 0, 7, 0), 0);
         Checks.due("kind 0 is looked at first", x.pair(1, 1, 0, 0), 0);
-        x = without("on 1{call 2;call 1;}on 7{call 3;}on 0{call 3;}on 1{}");
+        x = Checks.without("on 1{call 2;call 1;}on 7{call 3;}on 0{call 3;}on 1{}");
         x.rule(7, 0, 4);
         x.rule(0, 0, 3);
         Checks.due("ahead(0)", x.ahead(0), 5);
         Checks.due("level 4 is looked at ahead of level 9", x.pair(3, 0, 0, 4), NONE);
         Checks.due("its level 9", x.pair(3, 0, 0, 9), 7);
         Checks.due("the other's level 4", x.pair(3, 1, 0, 4), 0);
-        x = without("on 1{call 1;cut 1{call 2;}}on 2{call 2;}on 1{}");
+        x = Checks.without("on 1{call 1;cut 1{call 2;}}on 2{call 2;}on 1{}");
         x.rule(2, 0, 8);
         Checks.due("ahead(0)", x.ahead(0), 4);
         Checks.due("all levels of kind 0 ahead of kind 1", x.pair(2, 0, 1, 0), 1);
         Checks.due("its kind 0", x.pair(2, 0, 0, 9), NONE);
         Checks.due("the other's kind 0", x.pair(2, 1, 0, 9), 2);
         Checks.due("the other's kind 1", x.pair(2, 1, 1, 0), NONE);
-        x = without("on 0{call 2;call 1;}on 1{call 2;}on 0{}");
+        x = Checks.without("on 0{cut 1{call 1;}cut 0{call 1;}}on 2{}", 2);
+        Checks.due("ahead(0)", x.ahead(0), 3);
+        Checks.due("with its own entry", x.pair(1, 0, 1, 0), NONE);
+        Checks.due("with its own entry", x.pair(1, 0, 0, 0), 2);
+        Checks.due("with its own entry", x.pair(1, 1, 1, 0), 0);
+        x = Checks.without("on 0{call 2;call 1;}on 1{call 2;}on 0{}");
         x.rule(1, 7, 8);
         Checks.due("ahead(0)", x.ahead(0), 4);
         Checks.due("the last level of the last kind counts, too", x.pair(2, 0, 7, 9), NONE);
@@ -645,7 +671,7 @@ public final class EdgesOfAheadTest {
     }
 
     private static void grantedAndLesserAhead() {
-        SealKeeper x = without("on 0{cut 0{call 1;}call 1;}on 0{}");
+        SealKeeper x = Checks.without("on 0{cut 0{call 1;}call 1;}on 0{}");
         x.ahead(0);
         Checks.due("granted, ahead of refused by 0", x.pair(1, 0, 0, 0), NONE);
         Checks.due("refused by 0", x.pair(1, 1, 0, 0), 0);
@@ -658,7 +684,7 @@ public final class EdgesOfAheadTest {
         for (int owner : owners) {
             text.append("on ").append(owner).append("{cut 4{call 9;}}");
         }
-        x = without(text + "on 0{}");
+        x = Checks.without(text + "on 0{}");
         Checks.due("ahead(0)", x.ahead(0), 18);
         for (int k = 0; k < 9; k++) {
             Checks.due("pair(9, " + k + ", 4, 0)", x.pair(9, k, 4, 0), k - 1);
@@ -666,7 +692,7 @@ public final class EdgesOfAheadTest {
     }
 
     private static void pairNone() {
-        SealKeeper x = without("on 0{call 1;}on 0{}on 0{}");
+        SealKeeper x = Checks.without("on 0{call 1;}on 0{}on 0{}");
         x.ahead(0);
         Checks.due("granted", x.pair(0, 0, 0, 9), NONE);
         x.rule(0, 0, -1);

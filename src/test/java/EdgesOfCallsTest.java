@@ -409,7 +409,8 @@ public final class EdgesOfCallsTest {
         }
         for (int room = 0; room <= 33; room++) {
             x = withBits(TAKE_ALL, 400 - room);
-            Checks.due("one more than there is room for", x.bits(-1, Math.min(room + 1, 32)), room < 32 ? SealKeeper.FULL : 432 - room);
+            Checks.due("one more than there is room for", x.bits(-1, Math.min(room + 1, 32)),
+                    room < 32 ? SealKeeper.FULL : 432 - room);
             Checks.due("count(1)", x.count(1), room < 32 ? 400 - room : 432 - room);
             if (room > 0 && room < 32) {
                 Checks.due("as many as there is room for", x.bits(-1, room), 400);

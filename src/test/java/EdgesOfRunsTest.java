@@ -17,13 +17,17 @@ public final class EdgesOfRunsTest {
         Sentence.test("11", "of METHODS that are open, with their OWNERS", EdgesOfRunsTest::openMethods);
         Sentence.test("11", "of blocks of lend, cut and under that are open, with the OWNER in whose METHOD they are",
                 EdgesOfRunsTest::openBlocks);
+        Sentence.test("11", "perhaps a BASE below all of them, which is another STACK as it was when it was kept.",
+                EdgesOfRunsTest::basesAsTheyWere);
         Sentence.test("11", "from the latest ENTRY down:", EdgesOfRunsTest::fromTheLatestEntry);
-        Sentence.test("11", "a METHOD: if its OWNER has not the RIGHT it is REFUSED, by that OWNER.", EdgesOfRunsTest::methodsJudge);
+        Sentence.test("11", "a METHOD: if its OWNER has not the RIGHT it is REFUSED, by that OWNER.",
+                EdgesOfRunsTest::methodsJudge);
         Sentence.test("11", "lend: if it lends the same KIND and a LEVEL not below that asked", EdgesOfRunsTest::whatIsLent);
         Sentence.test("11", "GRANTED, if its OWNER has the RIGHT, else REFUSED by that OWNER.", EdgesOfRunsTest::whoLends);
         Sentence.test("11", "cut: of the same KIND: REFUSED by its OWNER.", EdgesOfRunsTest::cuts);
         Sentence.test("11", "under: if its OWNER has not the RIGHT: REFUSED by that OWNER;", EdgesOfRunsTest::whoWorksUnder);
-        Sentence.test("11", "else it is judged on what its SLOT kept (instead of what is below).", EdgesOfRunsTest::whatTheSlotKept);
+        Sentence.test("11", "else it is judged on what its SLOT kept (instead of what is below).",
+                EdgesOfRunsTest::whatTheSlotKept);
         Sentence.test("11", "Below all ENTRIES: on the BASE; without one GRANTED.", EdgesOfRunsTest::belowAllEntries);
     }
 
@@ -34,7 +38,8 @@ public final class EdgesOfRunsTest {
         Sentence.test("11", "SLOTS keep nothing as it begins.", EdgesOfRunsTest::slotsAtFirst);
         Sentence.test("11", "RULES are those of now.", EdgesOfRunsTest::rulesOfNow);
         Sentence.test("11", "Each step that begins is a TURN", EdgesOfRunsTest::turnsOfSteps);
-        Sentence.test("11", "(a try, loop, if, either once; the steps in their blocks each time).", EdgesOfRunsTest::turnsOfBlocks);
+        Sentence.test("11", "(a try, loop, if, either once; the steps in their blocks each time).",
+                EdgesOfRunsTest::turnsOfBlocks);
     }
 
     private static void ofSteps() {
@@ -42,10 +47,13 @@ public final class EdgesOfRunsTest {
         Sentence.test("11", "call: the METHOD is open till its block ends, or a back in it.", EdgesOfRunsTest::calls);
         Sentence.test("11", "keep: the SLOT keeps the STACK as it is.", EdgesOfRunsTest::keeps);
         Sentence.test("11", "a SLOT that keeps nothing: a FAILURE (by no one).", EdgesOfRunsTest::emptySlots);
-        Sentence.test("11", "later: a JOB of the METHOD is put off, with the STACK as it is as its BASE.", EdgesOfRunsTest::laters);
-        Sentence.test("11", "a FAILURE in it (in what it calls, too) ends all that was open within that block", EdgesOfRunsTest::tries);
+        Sentence.test("11", "later: a JOB of the METHOD is put off, with the STACK as it is as its BASE.",
+                EdgesOfRunsTest::laters);
+        Sentence.test("11", "a FAILURE in it (in what it calls, too) ends all that was open within that block",
+                EdgesOfRunsTest::tries);
         Sentence.test("11", "loop: the block so many times.", EdgesOfRunsTest::loops);
-        Sentence.test("11", "if: the RIGHT is judged: GRANTED the first block, else the second one (no FAILURE).", EdgesOfRunsTest::ifs);
+        Sentence.test("11", "if: the RIGHT is judged: GRANTED the first block, else the second one (no FAILURE).",
+                EdgesOfRunsTest::ifs);
         Sentence.test("11", "either: the first block if the next BIT is 1; if it is 0, or there is none, the second one.",
                 EdgesOfRunsTest::eithers);
         Sentence.test("11", "back: the METHOD ends.", EdgesOfRunsTest::backs);
@@ -83,15 +91,6 @@ public final class EdgesOfRunsTest {
 
     // ---- helpers
 
-    /** All OWNERS have all RIGHTS, but for these, who have none of KIND 0. */
-    private static SealKeeper without(String text, int... owners) {
-        SealKeeper x = Checks.generous(text);
-        for (int owner : owners) {
-            x.rule(owner, 0, -1);
-        }
-        return x;
-    }
-
     private static void dueRun(SealKeeper x, String what, int method, int turns, int end) {
         Checks.due(what + ": run(" + method + ", " + turns + ")", x.run(method, turns), end);
     }
@@ -123,35 +122,45 @@ public final class EdgesOfRunsTest {
     // ---- stacks
 
     private static void openMethods() {
-        dueNotes(without("on 0{call 1;}on 1{call 2;}on 2{ask 0 0;say 1;}"), "all have it", 1);
-        dueNotes(without("on 0{call 1;}on 1{call 2;}on 2{ask 0 0;say 1;}", 1), "one that is open", 12002);
-        dueNotes(without("on 0{call 1;call 2;}on 1{}on 2{ask 0 0;say 1;}", 1), "one that has ended", 1);
-        dueNotes(without("on 0{call 1;call 2;}on 1{cut 0{back;}}on 2{ask 0 0;say 1;}", 1), "one that went back", 1);
-        dueNotes(without("on 0{try{call 1;}else{}ask 0 0;say 1;}on 1{ask 0 0;}", 1), "one that failed", 12004, 1);
-        dueNotes(without("on 0{ask 0 0;say 1;}on 1{call 0;}", 1), "one that was not called", 1);
+        dueNotes(Checks.without("on 0{call 1;}on 1{call 2;}on 2{ask 0 0;say 1;}"), "all have it", 1);
+        dueNotes(Checks.without("on 0{call 1;}on 1{call 2;}on 2{ask 0 0;say 1;}", 1), "one that is open", 12002);
+        dueNotes(Checks.without("on 0{call 1;call 2;}on 1{}on 2{ask 0 0;say 1;}", 1), "one that has ended", 1);
+        dueNotes(Checks.without("on 0{call 1;call 2;}on 1{cut 0{back;}}on 2{ask 0 0;say 1;}", 1), "one that went back", 1);
+        dueNotes(Checks.without("on 0{try{call 1;}else{}ask 0 0;say 1;}on 1{ask 0 0;}", 1), "one that failed", 12004, 1);
+        dueNotes(Checks.without("on 0{ask 0 0;say 1;}on 1{call 0;}", 1), "one that was not called", 1);
     }
 
     private static void openBlocks() {
-        dueNotes(without("on 3{cut 0{}ask 0 0;say 1;cut 0{call 1;}}on 4{ask 0 0;}"), "cut", 1, 14005);
-        dueNotes(without("on 5{call 1;}on 6{lend 0 9{}ask 0 0;}", 5), "lend", 16002);
-        dueNotes(without("on 5{call 1;}on 6{lend 0 9{ask 0 0;say 1;}}", 5), "lend", 1);
-        dueNotes(without("on 0{cut 0{keep 0;}under 0{}ask 0 0;say 1;under 0{ask 0 0;}}"), "under", 1, 11006);
-        dueNotes(without("on 0{try{cut 0{ask 0 0;}}else{ask 0 0;say 1;}}"), "cut that a failure ended", 11002, 1);
-        dueNotes(without("on 0{call 1;ask 0 0;say 1;}on 1{cut 0{back;}}"), "cut that a back ended", 1);
-        dueNotes(without("on 0{loop 2{cut 0{}ask 0 0;say 1;}}"), "cut of the time before", 1, 1);
+        dueNotes(Checks.without("on 3{cut 0{}ask 0 0;say 1;cut 0{call 1;}}on 4{ask 0 0;}"), "cut", 1, 14005);
+        dueNotes(Checks.without("on 5{call 1;}on 6{lend 0 9{}ask 0 0;}", 5), "lend", 16002);
+        dueNotes(Checks.without("on 5{call 1;}on 6{lend 0 9{ask 0 0;say 1;}}", 5), "lend", 1);
+        dueNotes(Checks.without("on 0{cut 0{keep 0;}under 0{}ask 0 0;say 1;under 0{ask 0 0;}}"), "under", 1, 11006);
+        dueNotes(Checks.without("on 0{try{cut 0{ask 0 0;}}else{ask 0 0;say 1;}}"), "cut that a failure ended", 11002, 1);
+        dueNotes(Checks.without("on 0{call 1;ask 0 0;say 1;}on 1{cut 0{back;}}"), "cut that a back ended", 1);
+        dueNotes(Checks.without("on 0{loop 2{cut 0{}ask 0 0;say 1;}}"), "cut of the time before", 1, 1);
+    }
+
+    private static void basesAsTheyWere() {
+        dueNotes(Checks.without("on 0{cut 0{later 1;}ask 0 0;say 1;}on 0{ask 0 0;}"), "a cut that has ended since", 1, 11004);
+        dueNotes(Checks.without("on 0{later 1;cut 0{}}on 0{ask 0 0;say 1;}"), "a cut that came since", 1);
+        dueNotes(Checks.without("on 0{call 1;}on 1{lend 0 0{later 2;}}on 2{ask 0 0;say 1;}", 0), "a lend that has ended since",
+                1);
+        dueNotes(Checks.without("on 0{try{later 1;under 0{}}else{}}on 1{ask 0 0;say 1;}", 2), "a try that has ended since",
+                10002, 1);
+        dueNotes(Checks.without("on 0{cut 0{keep 0;}later 1;cut 0{later 1;}}on 1{ask 0 0;say 1;}"), "each job its own", 1, 11005);
     }
 
     private static void fromTheLatestEntry() {
         String chain = "on 1{call 1;}on 2{call 2;}on 3{ask 0 0;}";
-        dueNotes(without(chain, 1), "the first", 12002);
-        dueNotes(without(chain, 1, 2), "the second", 13002);
-        dueNotes(without(chain, 1, 2, 3), "the third", 14002);
-        dueNotes(without("on 1{cut 0{call 1;}}on 2{ask 0 0;}", 2), "a method above a cut", 13002);
-        dueNotes(without("on 1{cut 0{call 1;}}on 2{ask 0 0;}", 1), "a cut above a method", 12002);
-        dueNotes(without("on 1{lend 0 9{cut 0{ask 0 0;}}}"), "a cut above a lend", 12002);
-        dueNotes(without("on 1{cut 0{lend 0 9{ask 0 0;say 1;}}}"), "a lend above a cut", 1);
-        dueNotes(without("on 1{lend 0 9{call 1;}}on 2{ask 0 0;}", 2), "a method above a lend", 13002);
-        dueNotes(without("on 1{call 1;}on 2{cut 0{call 2;}}on 3{cut 0{ask 0 0;}}"), "a cut above a cut", 14004);
+        dueNotes(Checks.without(chain, 1), "the first", 12002);
+        dueNotes(Checks.without(chain, 1, 2), "the second", 13002);
+        dueNotes(Checks.without(chain, 1, 2, 3), "the third", 14002);
+        dueNotes(Checks.without("on 1{cut 0{call 1;}}on 2{ask 0 0;}", 2), "a method above a cut", 13002);
+        dueNotes(Checks.without("on 1{cut 0{call 1;}}on 2{ask 0 0;}", 1), "a cut above a method", 12002);
+        dueNotes(Checks.without("on 1{lend 0 9{cut 0{ask 0 0;}}}"), "a cut above a lend", 12002);
+        dueNotes(Checks.without("on 1{cut 0{lend 0 9{ask 0 0;say 1;}}}"), "a lend above a cut", 1);
+        dueNotes(Checks.without("on 1{lend 0 9{call 1;}}on 2{ask 0 0;}", 2), "a method above a lend", 13002);
+        dueNotes(Checks.without("on 1{call 1;}on 2{cut 0{call 2;}}on 3{cut 0{ask 0 0;}}"), "a cut above a cut", 14004);
     }
 
     private static void methodsJudge() {
@@ -184,7 +193,8 @@ public final class EdgesOfRunsTest {
                 dueNotes(x, "kind " + lent + ", asked " + asked, lent == asked ? 1 : 11002);
             }
         }
-        dueNotes(without("on 0{call 1;}on 1{lend 0 5{lend 0 3{ask 0 5;say 1;ask 0 6;}}}", 0), "the lower lend is looked at", 1, 11005);
+        dueNotes(Checks.without("on 0{call 1;}on 1{lend 0 5{lend 0 3{ask 0 5;say 1;ask 0 6;}}}", 0),
+                "the lower lend is looked at", 1, 11005);
     }
 
     private static void whoLends() {
@@ -201,7 +211,8 @@ public final class EdgesOfRunsTest {
     private static void cuts() {
         for (int cut = 0; cut < 8; cut++) {
             for (int asked = 0; asked < 8; asked++) {
-                SealKeeper x = Checks.keeper("on 5{cut " + cut + "{try{ask " + asked + " 0;say 1;}else{}ask " + asked + " 9;say 2;}}");
+                SealKeeper x = Checks.keeper("on 5{cut " + cut + "{try{ask " + asked + " 0;say 1;}else{}ask " + asked
+                        + " 9;say 2;}}");
                 x.rule(5, asked, 9);
                 int[] due = cut == asked ? new int[] {16002, 16004} : new int[] {1, 2};
                 dueNotes(x, "kind " + cut + ", asked " + asked, due);
@@ -219,36 +230,46 @@ public final class EdgesOfRunsTest {
                 dueNotes(x, "rule " + rule + ", asked " + asked, rule >= asked ? 1 : 12004);
             }
         }
-        dueNotes(without("on 0{cut 0{keep 0;}call 1;}on 1{under 0{ask 0 0;}}", 1), "ahead of what was kept", 12004);
+        dueNotes(Checks.without("on 0{cut 0{keep 0;}call 1;}on 1{under 0{ask 0 0;}}", 1), "ahead of what was kept", 12004);
     }
 
     private static void whatTheSlotKept() {
-        dueNotes(without("on 0{keep 0;cut 0{call 1;}}on 1{under 0{ask 0 0;say 1;}}"), "a cut that is below", 1);
-        dueNotes(without("on 0{keep 0;call 1;}on 1{call 2;}on 2{under 0{ask 0 0;say 1;}}", 1), "a method that is below", 1);
-        dueNotes(without("on 0{cut 0{keep 0;}call 1;}on 1{under 0{ask 0 0;}}"), "a cut that was kept", 11004);
-        dueNotes(without("on 0{call 1;call 2;}on 1{keep 3;}on 2{ask 0 0;say 1;under 3{ask 0 0;}}", 1), "a method that was kept", 1, 12006);
-        dueNotes(without("on 5{call 1;}on 0{lend 0 4{keep 0;}under 0{ask 0 4;say 1;ask 0 5;}}", 5), "a lend that was kept", 1, 16006);
-        dueNotes(without("on 0{keep 1;cut 0{keep 0;}under 0{under 1{ask 0 0;say 1;}ask 0 0;}}"), "under within under", 1, 11007);
-        dueNotes(without("on 0{keep 0;under 0{cut 0{keep 0;}ask 0 0;say 1;}under 0{ask 0 0;}}"), "what it kept as the block began", 1, 11007);
-        dueNotes(without("on 0{cut 0{keep 0;}under 0{lend 0 9{ask 0 9;say 1;}cut 1{ask 1 0;}}}"), "what is above the under", 1, 11007);
+        dueNotes(Checks.without("on 0{keep 0;cut 0{call 1;}}on 1{under 0{ask 0 0;say 1;}}"), "a cut that is below", 1);
+        dueNotes(Checks.without("on 0{keep 0;call 1;}on 1{call 2;}on 2{under 0{ask 0 0;say 1;}}", 1), "a method that is below",
+                1);
+        dueNotes(Checks.without("on 0{cut 0{keep 0;}call 1;}on 1{under 0{ask 0 0;}}"), "a cut that was kept", 11004);
+        dueNotes(Checks.without("on 0{call 1;call 2;}on 1{keep 3;}on 2{ask 0 0;say 1;under 3{ask 0 0;}}", 1),
+                "a method that was kept", 1, 12006);
+        dueNotes(Checks.without("on 5{call 1;}on 0{lend 0 4{keep 0;}under 0{ask 0 4;say 1;ask 0 5;}}", 5),
+                "a lend that was kept", 1, 16006);
+        dueNotes(Checks.without("on 0{keep 1;cut 0{keep 0;}under 0{under 1{ask 0 0;say 1;}ask 0 0;}}"), "under within under", 1,
+                11007);
+        dueNotes(Checks.without("on 0{keep 0;under 0{cut 0{keep 0;}ask 0 0;say 1;}under 0{ask 0 0;}}"),
+                "what it kept as the block began", 1, 11007);
+        dueNotes(Checks.without("on 0{cut 0{keep 0;}under 0{lend 0 9{ask 0 9;say 1;}cut 1{ask 1 0;}}}"),
+                "what is above the under", 1, 11007);
     }
 
     private static void belowAllEntries() {
-        dueNotes(without("on 0{ask 0 9;say 1;}"), "without a base", 1);
-        dueNotes(without("on 0{later 1;}on 1{ask 0 9;say 1;}"), "a base", 1);
-        dueNotes(without("on 0{later 1;}on 1{ask 0 9;say 1;}", 0), "a base that refuses", 11001);
-        dueNotes(without("on 0{cut 0{later 1;}}on 1{ask 0 0;}"), "a base with a cut", 11002);
-        dueNotes(without("on 0{call 1;}on 1{lend 0 5{later 2;}}on 2{ask 0 5;say 1;ask 0 6;}", 0), "a base with a lend", 1, 11005);
-        dueNotes(without("on 0{later 1;}on 1{later 2;}on 2{later 3;}on 3{ask 0 0;say 1;}", 0), "a base of a base of a base", 11003);
-        dueNotes(without("on 0{later 1;}on 1{keep 0;later 2;}on 2{under 0{ask 0 0;}}", 0), "a base of what was kept", 11004);
-        dueNotes(without("on 0{cut 0{keep 0;}call 1;}on 1{under 0{later 2;}}on 2{ask 0 0;}"), "a base with an under", 11005);
-        dueNotes(without("on 0{keep 0;cut 0{under 0{later 1;}}}on 2{ask 0 0;say 1;}"), "a base with an under", 1);
+        dueNotes(Checks.without("on 0{ask 0 9;say 1;}"), "without a base", 1);
+        dueNotes(Checks.without("on 0{later 1;}on 1{ask 0 9;say 1;}"), "a base", 1);
+        dueNotes(Checks.without("on 0{later 1;}on 1{ask 0 9;say 1;}", 0), "a base that refuses", 11001);
+        dueNotes(Checks.without("on 0{cut 0{later 1;}}on 1{ask 0 0;}"), "a base with a cut", 11002);
+        dueNotes(Checks.without("on 0{call 1;}on 1{lend 0 5{later 2;}}on 2{ask 0 5;say 1;ask 0 6;}", 0), "a base with a lend",
+                1, 11005);
+        dueNotes(Checks.without("on 0{later 1;}on 1{later 2;}on 2{later 3;}on 3{ask 0 0;say 1;}", 0),
+                "a base of a base of a base", 11003);
+        dueNotes(Checks.without("on 0{later 1;}on 1{keep 0;later 2;}on 2{under 0{ask 0 0;}}", 0), "a base of what was kept",
+                11004);
+        dueNotes(Checks.without("on 0{cut 0{keep 0;}call 1;}on 1{under 0{later 2;}}on 2{ask 0 0;}"), "a base with an under",
+                11005);
+        dueNotes(Checks.without("on 0{keep 0;cut 0{under 0{later 1;}}}on 2{ask 0 0;say 1;}"), "a base with an under", 1);
     }
 
     // ---- jobs and turns
 
     private static void theFirstJob() {
-        SealKeeper x = without("on 0{say 0;later 1;cut 0{later 2;}}on 1{say 1;}on 2{say 2;ask 0 0;say 3;}");
+        SealKeeper x = Checks.without("on 0{say 0;later 1;cut 0{later 2;}}on 1{say 1;}on 2{say 2;ask 0 0;say 3;}");
         dueRun(x, "method 0", 0, 99, DONE);
         Checks.dueNotes(x, "method 0", 0, 1, 2, 11006);
         dueRun(x, "method 2, without a base", 2, 99, DONE);
@@ -258,14 +279,16 @@ public final class EdgesOfRunsTest {
     }
 
     private static void jobsInTheirOrder() {
-        dueNotes(without("on 0{later 1;later 2;later 1;say 9;}on 0{say 1;}on 0{say 2;}"), "behind the first", 9, 1, 2, 1);
-        dueNotes(without("on 0{later 1;later 2;}on 0{later 3;say 1;}on 0{say 2;}on 0{say 3;}"), "behind all others", 1, 2, 3);
-        dueNotes(without("on 0{try{later 1;ask 0 0;}else{later 2;}}on 1{say 1;}on 1{say 2;}", 0), "a failure leaves them", 11002, 1, 2);
+        dueNotes(Checks.without("on 0{later 1;later 2;later 1;say 9;}on 0{say 1;}on 0{say 2;}"), "behind the first", 9, 1, 2, 1);
+        dueNotes(Checks.without("on 0{later 1;later 2;}on 0{later 3;say 1;}on 0{say 2;}on 0{say 3;}"), "behind all others", 1,
+                2, 3);
+        dueNotes(Checks.without("on 0{try{later 1;ask 0 0;}else{later 2;}}on 1{say 1;}on 1{say 2;}", 0),
+                "a failure leaves them", 11002, 1, 2);
     }
 
     private static void slotsAtFirst() {
         for (int slot = 0; slot < 4; slot++) {
-            SealKeeper x = without("on 0{later 1;keep " + slot + ";}on 0{under " + slot + "{say 1;}}");
+            SealKeeper x = Checks.without("on 0{later 1;keep " + slot + ";}on 0{under " + slot + "{say 1;}}");
             dueNotes(x, "in a later job of the run", 1);
             dueRun(x, "in the next run", 1, 99, DONE);
             Checks.dueNotes(x, "in the next run", 10002);
@@ -288,62 +311,62 @@ public final class EdgesOfRunsTest {
     }
 
     private static void turnsOfSteps() {
-        dueTurns(without("on 0{}"), "no step", 0);
-        dueTurns(without("on 0{ask 0 0;}"), "ask, granted", 1);
-        dueTurns(without("on 0{ask 0 0;say 1;}", 0), "ask, refused", 1);
-        dueTurns(without("on 0{call 1;}on 0{}"), "call", 1);
-        dueTurns(without("on 0{call 1;}on 0{say 1;}"), "call of one step", 2);
-        dueTurns(without("on 0{lend 0 0{}}"), "lend", 1);
-        dueTurns(without("on 0{cut 0{}}"), "cut", 1);
-        dueTurns(without("on 0{keep 0;}"), "keep", 1);
-        dueTurns(without("on 0{under 0{say 1;}say 1;}"), "under of nothing", 1);
-        dueTurns(without("on 0{keep 0;under 0{}}"), "keep and under", 2);
-        dueTurns(without("on 0{later 1;}on 0{}"), "later of no step", 1);
-        dueTurns(without("on 0{later 1;}on 0{say 1;}"), "later of one step", 2);
-        dueTurns(without("on 0{say 1;}"), "say", 1);
-        dueTurns(without("on 0{back;say 1;}"), "back", 1);
+        dueTurns(Checks.without("on 0{}"), "no step", 0);
+        dueTurns(Checks.without("on 0{ask 0 0;}"), "ask, granted", 1);
+        dueTurns(Checks.without("on 0{ask 0 0;say 1;}", 0), "ask, refused", 1);
+        dueTurns(Checks.without("on 0{call 1;}on 0{}"), "call", 1);
+        dueTurns(Checks.without("on 0{call 1;}on 0{say 1;}"), "call of one step", 2);
+        dueTurns(Checks.without("on 0{lend 0 0{}}"), "lend", 1);
+        dueTurns(Checks.without("on 0{cut 0{}}"), "cut", 1);
+        dueTurns(Checks.without("on 0{keep 0;}"), "keep", 1);
+        dueTurns(Checks.without("on 0{under 0{say 1;}say 1;}"), "under of nothing", 1);
+        dueTurns(Checks.without("on 0{keep 0;under 0{}}"), "keep and under", 2);
+        dueTurns(Checks.without("on 0{later 1;}on 0{}"), "later of no step", 1);
+        dueTurns(Checks.without("on 0{later 1;}on 0{say 1;}"), "later of one step", 2);
+        dueTurns(Checks.without("on 0{say 1;}"), "say", 1);
+        dueTurns(Checks.without("on 0{back;say 1;}"), "back", 1);
     }
 
     private static void turnsOfBlocks() {
-        dueTurns(without("on 0{try{}else{}}"), "try", 1);
-        dueTurns(without("on 0{try{say 1;}else{say 2;}}"), "try, not failing", 2);
-        dueTurns(without("on 0{try{ask 0 0;say 1;}else{say 2;say 3;}}", 0), "try, failing", 4);
-        dueTurns(without("on 0{loop 0{say 1;}}"), "loop 0", 1);
-        dueTurns(without("on 0{loop 1{say 1;}}"), "loop 1", 2);
-        dueTurns(without("on 0{loop 99{say 1;}}"), "loop 99", 100);
-        dueTurns(without("on 0{loop 99{}}"), "an empty loop", 1);
-        dueTurns(without("on 0{loop 99{loop 0{say 1;}}}"), "loops of no times in one", 100);
-        dueTurns(without("on 0{loop 2{loop 3{say 1;}}}"), "a loop in a loop", 9);
-        dueTurns(without("on 0{if 0 0{}else{say 1;}}"), "if, the first empty", 1);
-        dueTurns(without("on 0{if 0 0{say 1;say 1;}else{say 1;}}"), "if, granted", 3);
-        dueTurns(without("on 0{if 0 0{say 1;say 1;}else{say 1;}}", 0), "if, refused", 2);
-        dueTurns(without("on 0{either{say 1;}or{}}"), "either, the second empty", 1);
-        dueTurns(without("on 0{either{}or{say 1;say 2;}}"), "either, the second", 3);
+        dueTurns(Checks.without("on 0{try{}else{}}"), "try", 1);
+        dueTurns(Checks.without("on 0{try{say 1;}else{say 2;}}"), "try, not failing", 2);
+        dueTurns(Checks.without("on 0{try{ask 0 0;say 1;}else{say 2;say 3;}}", 0), "try, failing", 4);
+        dueTurns(Checks.without("on 0{loop 0{say 1;}}"), "loop 0", 1);
+        dueTurns(Checks.without("on 0{loop 1{say 1;}}"), "loop 1", 2);
+        dueTurns(Checks.without("on 0{loop 99{say 1;}}"), "loop 99", 100);
+        dueTurns(Checks.without("on 0{loop 99{}}"), "an empty loop", 1);
+        dueTurns(Checks.without("on 0{loop 99{loop 0{say 1;}}}"), "loops of no times in one", 100);
+        dueTurns(Checks.without("on 0{loop 2{loop 3{say 1;}}}"), "a loop in a loop", 9);
+        dueTurns(Checks.without("on 0{if 0 0{}else{say 1;}}"), "if, the first empty", 1);
+        dueTurns(Checks.without("on 0{if 0 0{say 1;say 1;}else{say 1;}}"), "if, granted", 3);
+        dueTurns(Checks.without("on 0{if 0 0{say 1;say 1;}else{say 1;}}", 0), "if, refused", 2);
+        dueTurns(Checks.without("on 0{either{say 1;}or{}}"), "either, the second empty", 1);
+        dueTurns(Checks.without("on 0{either{}or{say 1;say 2;}}"), "either, the second", 3);
     }
 
     // ---- steps
 
     private static void asks() {
-        SealKeeper x = without("on 0{ask 0 9;say 1;ask 0 0;say 2;}");
+        SealKeeper x = Checks.without("on 0{ask 0 9;say 1;ask 0 0;say 2;}");
         dueNotes(x, "granted", 1, 2);
         Checks.dueRan(x, "granted", 4, 1, 0, 0, 1, 0, 2, 2);
         x.rule(0, 0, 8);
         dueNotes(x, "refused", 11000);
         Checks.dueRan(x, "refused", 1, 1, 1, 1, 1, 0, 1, 1);
-        x = without("on 0{try{ask 0 9;say 1;}else{}say 2;}", 0);
+        x = Checks.without("on 0{try{ask 0 9;say 1;}else{}say 2;}", 0);
         dueNotes(x, "taken", 11001, 2);
         Checks.dueRan(x, "taken", 3, 1, 1, 0, 1, 0, 2, 1);
     }
 
     private static void calls() {
-        SealKeeper x = without("on 0{call 1;say 1;call 1;}on 1{call 2;say 2;}on 2{say 3;back;say 4;}");
+        SealKeeper x = Checks.without("on 0{call 1;say 1;call 1;}on 1{call 2;say 2;}on 2{say 3;back;say 4;}");
         dueNotes(x, "one behind the other", 3, 2, 1, 3, 2);
         Checks.due("open at most", x.ran(4), 3);
         StringBuilder chain = new StringBuilder();
         for (int m = 0; m < 20; m++) {
             chain.append("on 0{").append(m < 19 ? "call " + (m + 1) + ";" : "").append("say ").append(m).append(";}");
         }
-        x = without(chain.toString());
+        x = Checks.without(chain.toString());
         dueRun(x, "twenty", 0, 39, DONE);
         Checks.due("open at most", x.ran(4), 20);
         for (int m = 0; m < 20; m++) {
@@ -352,12 +375,14 @@ public final class EdgesOfRunsTest {
     }
 
     private static void keeps() {
-        dueNotes(without("on 0{cut 0{keep 0;}keep 0;under 0{ask 0 0;say 1;}}"), "the latest keep counts", 1);
-        dueNotes(without("on 0{keep 0;cut 0{keep 0;}under 0{ask 0 0;}}"), "the latest keep counts", 11004);
-        dueNotes(without("on 0{keep 0;cut 0{keep 3;}try{under 3{ask 0 0;}}else{}under 0{ask 0 0;say 1;}}"), "each slot keeps its own", 11005, 1);
-        dueNotes(without("on 0{keep 1;cut 0{under 1{ask 0 0;say 1;}ask 0 0;}}"), "as it was, not as it is later", 1, 11005);
-        dueNotes(without("on 0{try{keep 2;ask 0 0;}else{}lend 0 9{under 2{say 1;}}}", 0), "a failure leaves it", 11002, 1);
-        dueNotes(without("on 0{call 1;under 0{ask 0 0;}}on 1{cut 0{keep 0;back;}}"), "a back leaves it", 12002);
+        dueNotes(Checks.without("on 0{cut 0{keep 0;}keep 0;under 0{ask 0 0;say 1;}}"), "the latest keep counts", 1);
+        dueNotes(Checks.without("on 0{keep 0;cut 0{keep 0;}under 0{ask 0 0;}}"), "the latest keep counts", 11004);
+        dueNotes(Checks.without("on 0{keep 0;cut 0{keep 3;}try{under 3{ask 0 0;}}else{}under 0{ask 0 0;say 1;}}"),
+                "each slot keeps its own", 11005, 1);
+        dueNotes(Checks.without("on 0{keep 1;cut 0{under 1{ask 0 0;say 1;}ask 0 0;}}"), "as it was, not as it is later", 1,
+                11005);
+        dueNotes(Checks.without("on 0{try{keep 2;ask 0 0;}else{}lend 0 9{under 2{say 1;}}}", 0), "a failure leaves it", 11002, 1);
+        dueNotes(Checks.without("on 0{call 1;under 0{ask 0 0;}}on 1{cut 0{keep 0;back;}}"), "a back leaves it", 12002);
     }
 
     private static void emptySlots() {
@@ -373,45 +398,52 @@ public final class EdgesOfRunsTest {
     }
 
     private static void laters() {
-        dueNotes(without("on 0{cut 0{later 1;}later 1;say 9;}on 1{ask 0 0;say 1;}"), "in a block, and behind it", 9, 11004, 1);
-        dueNotes(without("on 0{call 1;}on 1{later 2;back;}on 2{ask 0 0;say 1;}", 1), "a method that has ended since", 12003);
-        SealKeeper x = without("on 0{later 0;}", 1);
+        dueNotes(Checks.without("on 0{cut 0{later 1;}later 1;say 9;}on 1{ask 0 0;say 1;}"), "in a block, and behind it", 9,
+                11004, 1);
+        dueNotes(Checks.without("on 0{call 1;}on 1{later 2;back;}on 2{ask 0 0;say 1;}", 1), "a method that has ended since",
+                12003);
+        SealKeeper x = Checks.without("on 0{later 0;}", 1);
         dueRun(x, "itself, for ever", 0, 3000, FULL);
-        x = without("on 0{either{later 0;}or{say 1;}}");
+        x = Checks.without("on 0{either{later 0;}or{say 1;}}");
         x.bits(1, 1);
         dueNotes(x, "itself, once", 1);
         Checks.due("jobs", x.ran(1), 2);
     }
 
     private static void tries() {
-        dueNotes(without("on 0{try{}else{say 1;}say 2;}"), "no step", 2);
-        dueNotes(without("on 0{try{say 1;}else{say 2;}say 3;}"), "no failure", 1, 3);
-        dueNotes(without("on 0{try{ask 0 0;}else{}say 3;}", 0), "an empty second block", 11001, 3);
-        dueNotes(without("on 0{try{call 1;say 1;}else{say 2;}say 3;}on 1{call 2;say 4;}on 2{loop 9{cut 0{ask 0 0;}}say 5;}"), "in what it calls",
+        dueNotes(Checks.without("on 0{try{}else{say 1;}say 2;}"), "no step", 2);
+        dueNotes(Checks.without("on 0{try{say 1;}else{say 2;}say 3;}"), "no failure", 1, 3);
+        dueNotes(Checks.without("on 0{try{ask 0 0;}else{}say 3;}", 0), "an empty second block", 11001, 3);
+        dueNotes(Checks.without("on 0{try{call 1;say 1;}else{say 2;}say 3;}on 1{call 2;say 4;}on 2{loop 9{cut 0{ask 0 0;}}say 5;}"), "in what it calls",
                 13009, 2, 3);
-        dueNotes(without("on 0{try{cut 1{lend 0 9{call 1;}}}else{ask 1 9;say 1;}ask 1 9;say 2;}on 1{ask 1 0;}"), "blocks within are ended",
+        dueNotes(Checks.without("on 0{try{cut 1{lend 0 9{call 1;}}}else{ask 1 9;say 1;}ask 1 9;say 2;}on 1{ask 1 0;}"),
+                "blocks within are ended",
                 11008, 1, 2);
-        dueNotes(without("on 0{cut 1{try{under 0{}}else{ask 1 0;}}}"), "blocks around it stay", 10002, 11003);
-        dueNotes(without("on 0{try{try{ask 0 0;}else{say 1;}say 2;}else{say 3;}}", 0), "the inner try takes it", 11002, 1, 2);
-        dueNotes(without("on 0{try{try{say 1;}else{}ask 0 0;}else{say 3;}}", 0), "a try that is done takes nothing", 1, 11003, 3);
-        dueNotes(without("on 0{try{try{ask 0 0;}else{say 1;ask 0 1;say 2;}say 3;}else{say 4;}}", 0), "a failure in the second block",
+        dueNotes(Checks.without("on 0{cut 1{try{under 0{}}else{ask 1 0;}}}"), "blocks around it stay", 10002, 11003);
+        dueNotes(Checks.without("on 0{try{try{ask 0 0;}else{say 1;}say 2;}else{say 3;}}", 0), "the inner try takes it", 11002,
+                1, 2);
+        dueNotes(Checks.without("on 0{try{try{say 1;}else{}ask 0 0;}else{say 3;}}", 0), "a try that is done takes nothing", 1,
+                11003, 3);
+        dueNotes(Checks.without("on 0{try{try{ask 0 0;}else{say 1;ask 0 1;say 2;}say 3;}else{say 4;}}", 0),
+                "a failure in the second block",
                 11002, 1, 11004, 4);
-        dueNotes(without("on 0{try{ask 0 0;}else{ask 0 1;}say 1;}", 0), "that no other try takes", 11001, 11002);
-        dueNotes(without("on 0{loop 3{try{ask 0 0;}else{say 1;}}}", 0), "each time anew", 11002, 1, 11002, 1, 11002, 1);
-        dueNotes(without("on 0{later 1;try{say 1;}else{say 2;}}on 1{ask 0 0;}", 1), "not for a job that is put off", 1, 12004);
-        SealKeeper x = without("on 0{call 1;}on 1{" + "cut 2{".repeat(10) + "try{call 2;}else{say 1;}" + "}".repeat(11)
+        dueNotes(Checks.without("on 0{try{ask 0 0;}else{ask 0 1;}say 1;}", 0), "that no other try takes", 11001, 11002);
+        dueNotes(Checks.without("on 0{loop 3{try{ask 0 0;}else{say 1;}}}", 0), "each time anew", 11002, 1, 11002, 1, 11002, 1);
+        dueNotes(Checks.without("on 0{later 1;try{say 1;}else{say 2;}}on 1{ask 0 0;}", 1), "not for a job that is put off", 1,
+                12004);
+        SealKeeper x = Checks.without("on 0{call 1;}on 1{" + "cut 2{".repeat(10) + "try{call 2;}else{say 1;}" + "}".repeat(11)
                 + "on 2{" + "cut 3{".repeat(11) + "ask 0 0;" + "}".repeat(12), 2);
         dueNotes(x, "twelve blocks around and within", 10000 + 3000 + 25, 1);
     }
 
     private static void loops() {
         for (int times : new int[] {0, 1, 2, 98, 99}) {
-            SealKeeper x = without("on 0{loop " + times + "{say 5;}say 6;}");
+            SealKeeper x = Checks.without("on 0{loop " + times + "{say 5;}say 6;}");
             dueRun(x, "loop " + times, 0, 3000, DONE);
             Checks.due("loop " + times + ": notes", x.count(2), times + 1);
             Checks.due("loop " + times + ": the last", x.note(times), 6);
         }
-        SealKeeper x = without("on 0{loop 99{loop 29{}}}on 0{loop 54{loop 54{say 1;}}}on 0{loop 2{loop 0{say 1;}loop 2{say 2;}}}");
+        SealKeeper x = Checks.without("on 0{loop 99{loop 29{}}}on 0{loop 54{loop 54{say 1;}}}on 0{loop 2{loop 0{say 1;}loop 2{say 2;}}}");
         dueRun(x, "empty ones", 0, 3000, DONE);
         Checks.due("turns", x.ran(0), 100);
         dueRun(x, "one in another", 1, 3000, DONE);
@@ -427,12 +459,13 @@ public final class EdgesOfRunsTest {
             dueNotes(x, "rule " + rule, rule >= 5 ? 1 : 2, 3);
             Checks.dueRan(x, "rule " + rule, 3, 1, 0, 0, 1, 0, 2, 1);
         }
-        dueNotes(without("on 0{try{cut 0{if 0 0{say 1;}else{say 2;}}}else{say 3;}}"), "on the stack", 2);
-        dueNotes(without("on 0{call 1;}on 1{if 0 0{}else{say 2;}lend 0 0{if 0 0{say 1;}else{}}}", 0), "on the stack", 2, 1);
+        dueNotes(Checks.without("on 0{try{cut 0{if 0 0{say 1;}else{say 2;}}}else{say 3;}}"), "on the stack", 2);
+        dueNotes(Checks.without("on 0{call 1;}on 1{if 0 0{}else{say 2;}lend 0 0{if 0 0{say 1;}else{}}}", 0), "on the stack", 2,
+                1);
     }
 
     private static void eithers() {
-        SealKeeper x = without("on 0{loop 4{either{say 1;}or{say 2;}}}");
+        SealKeeper x = Checks.without("on 0{loop 4{either{say 1;}or{say 2;}}}");
         dueNotes(x, "no bit", 2, 2, 2, 2);
         x.bits(1, 1);
         dueNotes(x, "one bit", 1, 2, 2, 2);
@@ -442,35 +475,38 @@ public final class EdgesOfRunsTest {
         dueNotes(x, "four bits", 1, 2, 1, 1);
         x.bits(0, 1);
         dueNotes(x, "five bits", 1, 2, 1, 1);
-        x = without("on 0{either{either{say 1;}or{say 2;}}or{say 3;}either{say 4;}or{say 5;}}");
+        x = Checks.without("on 0{either{either{say 1;}or{say 2;}}or{say 3;}either{say 4;}or{say 5;}}");
         x.bits(5, 3);
         dueNotes(x, "one within another", 2, 4);
-        x = without("on 0{loop 20{loop 20{either{}or{say 1;}}}either{say 2;}or{say 3;}}");
+        x = Checks.without("on 0{loop 20{loop 20{either{}or{say 1;}}}either{say 2;}or{say 3;}}");
         ones(x, 400);
         dueNotes(x, "behind the 400th there is none", 3);
         Checks.due("taken", x.ran(5), 400);
-        x = without("on 0{later 1;either{say 1;}or{}}on 0{either{}or{say 2;}either{say 3;}or{}}");
+        x = Checks.without("on 0{later 1;either{say 1;}or{}}on 0{either{}or{say 2;}either{say 3;}or{}}");
         x.bits(5, 3);
         dueNotes(x, "jobs take them one behind the other", 1, 2, 3);
     }
 
     private static void backs() {
-        dueNotes(without("on 0{back;say 1;}"), "of the job", new int[0]);
-        dueNotes(without("on 0{call 1;say 1;}on 0{back;say 2;}"), "of one that was called", 1);
-        dueNotes(without("on 0{call 1;say 1;}on 0{loop 9{say 2;back;}say 3;}"), "out of a loop", 2, 1);
-        dueNotes(without("on 0{call 1;say 1;}on 0{try{back;}else{say 2;}say 3;}"), "no try takes it", 1);
-        dueNotes(without("on 0{try{call 1;ask 0 0;}else{say 1;}}on 1{try{back;}else{say 2;}}", 0), "the caller's try stays", 11002, 1);
-        dueNotes(without("on 0{later 1;back;}on 0{say 1;back;}"), "of a job that another follows", 1);
-        SealKeeper x = without("on 0{call 1;ask 0 9;say 1;}on 0{" + "cut 0{".repeat(11) + "back;" + "}".repeat(11) + "say 2;}");
+        SealKeeper x = Checks.without("on 0{back;say 1;}");
+        dueNotes(x, "of the job");
+        Checks.dueRan(x, "of the job", 1, 1, 0, 0, 1, 0, 0, 0);
+        dueNotes(Checks.without("on 0{call 1;say 1;}on 0{back;say 2;}"), "of one that was called", 1);
+        dueNotes(Checks.without("on 0{call 1;say 1;}on 0{loop 9{say 2;back;}say 3;}"), "out of a loop", 2, 1);
+        dueNotes(Checks.without("on 0{call 1;say 1;}on 0{try{back;}else{say 2;}say 3;}"), "no try takes it", 1);
+        dueNotes(Checks.without("on 0{try{call 1;ask 0 0;}else{say 1;}}on 1{try{back;}else{say 2;}}", 0),
+                "the caller's try stays", 11002, 1);
+        dueNotes(Checks.without("on 0{later 1;back;}on 0{say 1;back;}"), "of a job that another follows", 1);
+        x = Checks.without("on 0{call 1;ask 0 9;say 1;}on 0{" + "cut 0{".repeat(11) + "back;" + "}".repeat(11) + "say 2;}");
         dueNotes(x, "out of twelve blocks", 1);
         Checks.dueRan(x, "out of twelve blocks", 15, 1, 0, 0, 2, 0, 1, 1);
     }
 
     private static void failuresThatNoTryTakes() {
-        SealKeeper x = without("on 0{later 1;later 2;call 1;say 1;}on 1{cut 0{ask 0 0;}say 2;}on 2{say 3;}");
+        SealKeeper x = Checks.without("on 0{later 1;later 2;call 1;say 1;}on 1{cut 0{ask 0 0;}say 2;}on 2{say 3;}");
         dueNotes(x, "the next job begins", 12005, 12005, 3);
         Checks.dueRan(x, "the next job begins", 3 + 2 + 2 + 1, 3, 2, 2, 2, 0, 3, 2);
-        x = without("on 0{under 0{}}");
+        x = Checks.without("on 0{under 0{}}");
         dueNotes(x, "no job is left", 10000);
         Checks.dueRan(x, "no job is left", 1, 1, 1, 1, 1, 0, 1, 0);
     }
@@ -478,7 +514,7 @@ public final class EdgesOfRunsTest {
     // ---- ends
 
     private static void done() {
-        SealKeeper x = without("on 0{}on 0{later 0;}on 0{loop 20{later 0;}}");
+        SealKeeper x = Checks.without("on 0{}on 0{later 0;}on 0{loop 20{later 0;}}");
         dueRun(x, "no step", 0, 0, DONE);
         Checks.dueRan(x, "no step", 0, 1, 0, 0, 1, 0, 0, 0);
         dueRun(x, "a job without a step needs no turn", 1, 1, DONE);
@@ -518,14 +554,14 @@ public final class EdgesOfRunsTest {
     }
 
     private static void deep() {
-        SealKeeper x = without("on 0{either{call 0;}or{say 1;}say 2;}");
+        SealKeeper x = Checks.without("on 0{either{call 0;}or{say 1;}say 2;}");
         ones(x, 39);
         dueRun(x, "40 open", 0, 3000, DONE);
         Checks.dueRan(x, "40 open", 120, 1, 0, 0, 40, 39, 41, 0);
         ones(x, 1);
         dueRun(x, "41 would be open", 0, 3000, DEEP);
         Checks.dueRan(x, "41 would be open", 80, 1, 0, 0, 40, 40, 0, 0);
-        x = without("on 0{try{call 0;}else{say 1;}}on 0{loop 50{call 2;}}on 0{back;}on 0{loop 50{try{call 4;}else{}}}on 1{ask 0 0;}", 1);
+        x = Checks.without("on 0{try{call 0;}else{say 1;}}on 0{loop 50{call 2;}}on 0{back;}on 0{loop 50{try{call 4;}else{}}}on 1{ask 0 0;}", 1);
         dueRun(x, "no try takes it", 0, 3000, DEEP);
         Checks.dueRan(x, "no try takes it", 80, 1, 0, 0, 40, 0, 0, 0);
         dueRun(x, "those that went back are not open", 1, 3000, DONE);
@@ -533,13 +569,13 @@ public final class EdgesOfRunsTest {
         dueRun(x, "those that failed are not open", 3, 3000, DONE);
         Checks.due("open at most", x.ran(4), 2);
         Checks.due("failures", x.ran(2), 50);
-        x = without("on 0{" + "lend 1 1{".repeat(11) + "call 0;" + "}".repeat(12));
+        x = Checks.without("on 0{" + "lend 1 1{".repeat(11) + "call 0;" + "}".repeat(12));
         dueRun(x, "forty methods with twelve blocks each", 0, 3000, DEEP);
         Checks.due("turns", x.ran(0), 40 * 12);
     }
 
     private static void deepInJobs() {
-        SealKeeper x = without("on 0{either{call 0;}or{later 1;}}on 0{either{call 1;}or{say 1;}}");
+        SealKeeper x = Checks.without("on 0{either{call 0;}or{later 1;}}on 0{either{call 1;}or{say 1;}}");
         ones(x, 39);
         x.bits(0, 1);
         ones(x, 39);
@@ -552,19 +588,19 @@ public final class EdgesOfRunsTest {
         ones(x, 40);
         dueRun(x, "41 would be open in the second", 0, 3000, DEEP);
         Checks.dueRan(x, "41 would be open in the second", 160, 2, 0, 0, 40, 80, 0, 0);
-        x = without("on 0{call 1;}on 1{call 2;}on 2{later 3;ask 0 0;}on 3{say 1;}", 2);
+        x = Checks.without("on 0{call 1;}on 1{call 2;}on 2{later 3;ask 0 0;}on 3{say 1;}", 2);
         dueNotes(x, "behind a job that failed with three open", 13003, 1);
         Checks.due("open at most", x.ran(4), 3);
     }
 
     private static void full() {
         for (int jobs : new int[] {19, 20, 21}) {
-            SealKeeper x = without("on 0{loop " + jobs + "{later 1;}say 5;}on 0{say 1;}");
+            SealKeeper x = Checks.without("on 0{loop " + jobs + "{later 1;}say 5;}on 0{say 1;}");
             dueRun(x, jobs + " jobs", 0, 3000, jobs > 20 ? FULL : DONE);
             Checks.due(jobs + " jobs: began", x.ran(1), jobs > 20 ? 1 : jobs + 1);
             Checks.due(jobs + " jobs: notes", x.ran(6), jobs > 20 ? 0 : jobs + 1);
         }
-        SealKeeper x = without("on 0{later 0;say 1;}on 0{later 2;}on 0{loop 19{later 3;}}on 0{say 2;}on 0{later 5;}on 0{loop 20{later 3;}}");
+        SealKeeper x = Checks.without("on 0{later 0;say 1;}on 0{later 2;}on 0{loop 19{later 3;}}on 0{say 2;}on 0{later 5;}on 0{loop 20{later 3;}}");
         dueRun(x, "those that are done count, too", 0, 3000, FULL);
         Checks.dueRan(x, "those that are done count, too", 41, 21, 0, 0, 1, 0, 20, 0);
         dueRun(x, "twenty by two jobs", 1, 3000, DONE);
@@ -572,13 +608,13 @@ public final class EdgesOfRunsTest {
         dueRun(x, "twenty-one by two jobs", 4, 3000, FULL);
         Checks.due("began", x.ran(1), 2);
         dueRun(x, "each run has its own", 1, 3000, DONE);
-        x = without("on 0{try{loop 21{later 1;}}else{say 1;}}on 0{}");
+        x = Checks.without("on 0{try{loop 21{later 1;}}else{say 1;}}on 0{}");
         dueRun(x, "no try takes it", 0, 3000, FULL);
         Checks.dueRan(x, "no try takes it", 23, 1, 0, 0, 1, 0, 0, 0);
     }
 
     private static void thatCallIsATurn() {
-        SealKeeper x = without("on 0{call 0;}on 0{loop 21{later 2;}}on 0{say 1;}");
+        SealKeeper x = Checks.without("on 0{call 0;}on 0{loop 21{later 2;}}on 0{say 1;}");
         dueRun(x, "the 40th call", 0, 40, DEEP);
         Checks.dueRan(x, "the 40th call", 40, 1, 0, 0, 40, 0, 0, 0);
         dueRun(x, "without a turn for it", 0, 39, SPENT);
@@ -592,7 +628,7 @@ public final class EdgesOfRunsTest {
     // ---- notes
 
     private static void valuesSaid() {
-        dueNotes(without("on 0{say 0;say 999;say 1;say 000;say 007;}"), "their edges", 0, 999, 1, 0, 7);
+        dueNotes(Checks.without("on 0{say 0;say 999;say 1;say 000;say 007;}"), "their edges", 0, 999, 1, 0, 7);
     }
 
     private static void notesOfFailures() {
@@ -606,7 +642,7 @@ public final class EdgesOfRunsTest {
         SealKeeper x = Checks.keeper("on 0{" + "back;".repeat(199) + "}on 7{under 3{}}");
         dueRun(x, "no one", 1, 9, DONE);
         Checks.dueNotes(x, "no one", 10199);
-        dueNotes(without("on 0{try{say 1;ask 0 0;say 2;}else{say 3;}say 4;}", 0), "as it arises", 1, 11002, 3, 4);
+        dueNotes(Checks.without("on 0{try{say 1;ask 0 0;say 2;}else{say 3;}say 4;}", 0), "as it arises", 1, 11002, 3, 4);
     }
 
     private static void numbersOfNotes() {
@@ -638,6 +674,11 @@ public final class EdgesOfRunsTest {
         for (int wrong : new int[] {-1, 3001, LEAST, MOST}) {
             dueRun(x, "not told", 0, wrong, SealKeeper.OUTSIDE);
         }
+        x = Checks.without("on 0{" + "call1;".repeat(99) + "call2;".repeat(27) + "cut 0{cut 1{ask 0 0;}}}on 0{"
+                + "call2;".repeat(29) + "}on 0{}");
+        dueRun(x, "2999 turns that make an entry each", 0, 3000, DONE);
+        Checks.dueRan(x, "2999 turns that make an entry each", 3000, 1, 1, 1, 3, 0, 1, 1);
+        Checks.dueNotes(x, "2999 turns that make an entry each", 11128);
     }
 
     private static void bitsFromTheFirst() {
@@ -655,7 +696,7 @@ public final class EdgesOfRunsTest {
     }
 
     private static void notesAreEmptyAtFirst() {
-        SealKeeper x = without("on 0{say 1;say 2;}on 0{}on 0{say 3;call 2;}on 0{later 3;}");
+        SealKeeper x = Checks.without("on 0{say 1;say 2;}on 0{}on 0{say 3;call 2;}on 0{later 3;}");
         dueNotes(x, "two", 1, 2);
         dueNotes(x, "two again", 1, 2);
         dueRun(x, "none", 1, 9, DONE);
@@ -686,7 +727,7 @@ public final class EdgesOfRunsTest {
     }
 
     private static void ranTurnsAndJobs() {
-        SealKeeper x = without("on 0{}on 0{say 1;loop 20{later 0;}}");
+        SealKeeper x = Checks.without("on 0{}on 0{say 1;loop 20{later 0;}}");
         dueRun(x, "the least", 0, 0, DONE);
         Checks.dueRan(x, "the least", 0, 1);
         dueRun(x, "all jobs", 1, 3000, DONE);
@@ -699,7 +740,8 @@ public final class EdgesOfRunsTest {
     }
 
     private static void ranFailures() {
-        SealKeeper x = without("on 0{loop 99{try{ask 0 0;}else{}}}on 0{loop 20{later 2;}ask 0 0;}on 0{under 0{}}on 0{}", 0);
+        SealKeeper x = Checks.without("on 0{loop 99{try{ask 0 0;}else{}}}on 0{loop 20{later 2;}ask 0 0;}on 0{under 0{}}on 0{}",
+                0);
         dueRun(x, "all are taken", 0, 3000, DONE);
         Checks.due("failures", x.ran(2), 99);
         Checks.due("those that ended a job", x.ran(3), 0);
@@ -712,7 +754,7 @@ public final class EdgesOfRunsTest {
     }
 
     private static void ranMethodsOpen() {
-        SealKeeper x = without("on 0{}on 0{call 0;call 0;}on 0{later 1;}on 0{call 1;later 0;}on 0{call 4;}");
+        SealKeeper x = Checks.without("on 0{}on 0{call 0;call 0;}on 0{later 1;}on 0{call 1;later 0;}on 0{call 4;}");
         int[] due = {1, 2, 2, 3, 40};
         for (int method = 0; method < due.length; method++) {
             x.run(method, 3000);
@@ -738,7 +780,7 @@ public final class EdgesOfRunsTest {
     }
 
     private static void ranNotesAndRights() {
-        SealKeeper x = without("on 0{ask 0 0;if 0 0{}else{}if 1 1{say 1;}else{}ask 1 1;}on 0{call 0;later 0;}on 0{lend 0 0{cut 0{}}under 0{}}");
+        SealKeeper x = Checks.without("on 0{ask 0 0;if 0 0{}else{}if 1 1{say 1;}else{}ask 1 1;}on 0{call 0;later 0;}on 0{lend 0 0{cut 0{}}under 0{}}");
         dueRun(x, "four", 0, 99, DONE);
         Checks.due("notes", x.ran(6), 1);
         Checks.due("rights", x.ran(7), 4);

@@ -21,7 +21,8 @@ public final class EdgesOfTextsTest {
     }
 
     private static void ofTheGrammar() {
-        Sentence.test("4", "METHODS are numbered from 0 in their order, each of an OWNER, with STEPS.", EdgesOfTextsTest::methodsInOrder);
+        Sentence.test("4", "METHODS are numbered from 0 in their order, each of an OWNER, with STEPS.",
+                EdgesOfTextsTest::methodsInOrder);
         Sentence.test("4", "program: method { method }", EdgesOfTextsTest::oneMethodAtLeast);
         Sentence.test("4", "method: on OWNER block", EdgesOfTextsTest::methodForm);
         Sentence.test("4", "block: \"{\" { step } \"}\"", EdgesOfTextsTest::emptyBlocks);
@@ -48,16 +49,19 @@ public final class EdgesOfTextsTest {
         Sentence.test("5", "3 a block that lies within twelve others (at its { ).", EdgesOfTextsTest::blocksWithinTwelve);
         Sentence.test("5", "4 the 21st method (at its on)", EdgesOfTextsTest::the21stMethod);
         Sentence.test("5", "the 201st step (at its word).", EdgesOfTextsTest::the201stStep);
-        Sentence.test("5", "If there is none of these: 5 the METHOD of the first call or later", EdgesOfTextsTest::methodsThatAreNot);
+        Sentence.test("5", "If there is none of these: 5 the METHOD of the first call or later",
+                EdgesOfTextsTest::methodsThatAreNot);
     }
 
     private static void ofPromises() {
-        Sentence.test("4", "The tape, empty then, is the program, in place of the one before", EdgesOfTextsTest::inPlaceOfTheOneBefore);
+        Sentence.test("4", "The tape, empty then, is the program, in place of the one before",
+                EdgesOfTextsTest::inPlaceOfTheOneBefore);
         Sentence.test("4", "how many METHODS;", EdgesOfTextsTest::howManyMethods);
         Sentence.test("4", "-100 less the place of its FAULT (the program before stays).", EdgesOfTextsTest::placesOfFaults);
         Sentence.test("5", "The FAULT of the text that was read latest; 0 without.", EdgesOfTextsTest::theLatestFault);
         Sentence.test("9", "what 0 METHODS, 1 STEPS, 2 steps of the kind ask", EdgesOfTextsTest::aboutCounts);
-        Sentence.test("9", "3 how many blocks lie within one another at most (a METHOD's own one counts).", EdgesOfTextsTest::aboutBlocks);
+        Sentence.test("9", "3 how many blocks lie within one another at most (a METHOD's own one counts).",
+                EdgesOfTextsTest::aboutBlocks);
         Sentence.test("9", "OUTSIDE: what; STATE.", EdgesOfTextsTest::aboutOutside);
         Sentence.test("10", "what 0 its word's place among ask, call, lend", EdgesOfTextsTest::wordPlaces);
         Sentence.test("10", "1 its METHOD;", EdgesOfTextsTest::methodsOfSteps);
@@ -378,6 +382,23 @@ public final class EdgesOfTextsTest {
         }
         dueAtMark("on 1{try{}#elsee{}}", 1);
         dueAtMark("on 1{either{}#orr{}}", 1);
+        for (String step : STEPS) {
+            dueNoneIfChanged("on 1{", step.split(" ")[0], step.substring(step.indexOf(' ')) + "}");
+        }
+        dueNoneIfChanged("", "on", " 1{}");
+        dueNoneIfChanged("on 1{try{}", "else", "{}}");
+        dueNoneIfChanged("on 1{either{}", "or", "{}}");
+    }
+
+    /** A word with any one letter changed, gone or twice is none of those told. */
+    private static void dueNoneIfChanged(String ahead, String word, String behind) {
+        for (int i = 0; i < word.length(); i++) {
+            String start = word.substring(0, i);
+            String rest = word.substring(i + 1);
+            Checks.dueFault(ahead + start + "z" + rest + behind, 1, ahead.length());
+            Checks.dueFault(ahead + start + word.charAt(i) + word.charAt(i) + rest + behind, 1, ahead.length());
+            Checks.dueFault(ahead + start + rest + behind, 1, ahead.length());
+        }
     }
 
     private static void numbersOfMoreDigits() {
@@ -514,9 +535,17 @@ public final class EdgesOfTextsTest {
         Checks.due("the program stays then", x.about(1), 1);
         Checks.due("a greater one", Checks.read(x, Texts.methods(19) + "on 0{" + "back;".repeat(200) + "}"), 20);
         Checks.due("steps", x.about(1), 200);
+        Checks.due("blocks", x.about(3), 1);
         Checks.due("the least one", Checks.read(x, "on 0{}"), 1);
         Checks.due("steps", x.about(1), 0);
         Checks.due("blocks", x.about(3), 1);
+        x = Checks.keeper(Texts.nested(12, "ask 1 1;"));
+        Checks.due("one with a fault", Checks.read(x, Texts.nested(11, "@")), -165);
+        for (int i = 0; i < 3; i++) {
+            Checks.due("behind it", Checks.read(x, "on 0{cut 1{}}"), 1);
+            Checks.due("blocks", x.about(3), 2);
+            Checks.due("asks", x.about(2), 0);
+        }
     }
 
     private static void howManyMethods() {
@@ -553,7 +582,8 @@ public final class EdgesOfTextsTest {
         x.feed(0, 0, 0, 0, 0);
         Checks.due("a text that is not read", x.fault(), 0);
         x.trim(0);
-        String[] texts = {"@", "on 8{}", Texts.nested(13, ""), Texts.methods(21), "on 1{" + "back;".repeat(201) + "}", "on 1{call 1;}",
+        String[] texts = {"@", "on 8{}", Texts.nested(13, ""), Texts.methods(21), "on 1{" + "back;".repeat(201) + "}",
+                "on 1{call 1;}",
             "on 1{}"};
         int[] faults = {1, 2, 3, 4, 4, 5, 0};
         for (int i = 0; i < texts.length; i++) {

@@ -68,6 +68,15 @@ final class Checks {
         return x;
     }
 
+    /** All OWNERS have all RIGHTS, but for these, who have none of KIND 0. */
+    static SealKeeper without(String text, int... owners) {
+        SealKeeper x = generous(text);
+        for (int owner : owners) {
+            x.rule(owner, 0, -1);
+        }
+        return x;
+    }
+
     static void dueFault(String text, int fault, int place) {
         SealKeeper x = new SealKeeper();
         due("program() of '" + text + "'", read(x, text), -100 - place);

@@ -18,13 +18,18 @@ final class Texts {
         return "on 0{" + "cut 1{".repeat(blocks - 1) + steps + "}".repeat(blocks);
     }
 
-    /**
-     * METHOD 0 has 256 PAIRS, one for each set of KINDS that are cut. It calls others with so many KINDS lent
-     * again, which have a PAIR for each set of the KINDS that are left.
-     */
+    /** A crowd of all KINDS. */
     static String crowd(int... lent) {
+        return crowdOf(8, lent);
+    }
+
+    /**
+     * METHOD 0 has a PAIR for each set of KINDS that are cut, 256 if there are 8. It calls others with so many
+     * KINDS lent again, which have a PAIR for each set of the KINDS that are left.
+     */
+    static String crowdOf(int kinds, int... lent) {
         StringBuilder out = new StringBuilder("on 0{");
-        for (int kind = 0; kind < 8; kind++) {
+        for (int kind = 0; kind < kinds; kind++) {
             out.append("either{cut ").append(kind).append("{call 0;}}or{}");
         }
         for (int i = 0; i < lent.length; i++) {
